@@ -45,7 +45,6 @@ public final class BitmapVolume {
     private final Boot boot;
     private final Space space;
     private final Sets sets;
-    private final Fault found;
     private final Check check;
     private final Tree tree;
     private final Acts acts;
@@ -53,15 +52,19 @@ public final class BitmapVolume {
     private boolean mounted;
 
     public BitmapVolume() {
-        disk = new Disk();
-        boot = new Boot(disk);
-        space = new Space(disk);
-        Cases cases = new Cases(disk);
-        sets = new Sets(disk, cases);
-        found = new Fault();
-        check = new Check(disk, boot, space, sets, cases, found);
-        tree = new Tree(disk, space, sets);
-        acts = new Acts(disk, space, sets, tree);
+        Disk newDisk = new Disk();
+        Boot newBoot = new Boot(newDisk);
+        Space newSpace = new Space(newDisk);
+        Cases newCases = new Cases(newDisk);
+        Sets newSets = new Sets(newDisk, newCases);
+        Tree newTree = new Tree(newDisk, newSpace, newSets);
+        disk = newDisk;
+        boot = newBoot;
+        space = newSpace;
+        sets = newSets;
+        tree = newTree;
+        check = new Check(newDisk, newBoot, newSpace, newSets, newCases, newTree);
+        acts = new Acts(newDisk, newSpace, newSets, newTree);
         draft = new Name();
     }
 
@@ -113,9 +116,10 @@ public final class BitmapVolume {
 
     public int mount() {
         if (mounted) return STATE;
-        int fault = check.askBase();
-        if (fault == 0) fault = check.askRest();
-        if (fault != 0) return -10 - fault;
+        int number = check.askBase();
+        if (number == 0) number = check.askTree(false);
+        if (number == 0) number = check.askBitmap();
+        if (number != 0) return -10 - number;
         mounted = true;
         tree.index();
         return check.bySecond ? 2 : 1;
@@ -123,9 +127,9 @@ public final class BitmapVolume {
 
     public int fault(int what) {
         switch (what) {
-            case 0: return found.number;
-            case 1: return found.inCluster;
-            case 2: return found.entry;
+            case 0: return check.faultNumber;
+            case 1: return check.faultCluster;
+            case 2: return check.faultEntry;
             default: return BAD;
         }
     }
@@ -140,8 +144,11 @@ public final class BitmapVolume {
 
     public int mend() {
         if (mounted) return STATE;
-        int fault = check.askBase();
-        return fault != 0 ? -10 - fault : check.mendRest();
+        int number = check.askBase();
+        if (number != 0) return -10 - number;
+        if (!check.mendBoot()) return OFF;
+        check.askTree(true);
+        return check.mendRest() ? check.mended : OFF;
     }
 
     // ---- names
@@ -268,11 +275,12 @@ public final class BitmapVolume {
         }
 
         int get2(int a) {
-            return get(a) | get(a + 1) << 8;
+            return a >= 0 && a < next.length - 1 ? next[a] | next[a + 1] << 8 : 0;
         }
 
         int get4(int a) {
-            return get2(a) | get2(a + 2) << 16;
+            if (a < 0 || a >= next.length - 3) return 0;
+            return next[a] | next[a + 1] << 8 | next[a + 2] << 16 | next[a + 3] << 24;
         }
 
         void put(int a, int v) {
@@ -288,8 +296,7 @@ public final class BitmapVolume {
         }
 
         void put4(int a, int v) {
-            put2(a, v);
-            put2(a + 2, v >>> 16);
+            for (int i = 0; i < 4; i++) put(a + i, v >>> 8 * i);
         }
 
         void blank(int a, int octets) {
@@ -394,7 +401,7 @@ public final class BitmapVolume {
         private int sumOfThree() {
             int s = 0;
             for (int i = 0; i < 3 * SECTOR; i++) {
-                if (i != FLAGS && i != FLAGS + 1 && i != PERCENT) s = Integer.rotateRight(s, 1) + image[i];
+                if (i != FLAGS && i != FLAGS + 1 && i != PERCENT) s = (s >>> 1 | s << 31) + image[i];
             }
             return s;
         }
@@ -510,7 +517,7 @@ public final class BitmapVolume {
 
     /** CLUSTERS of one file or DIRECTORY, in order. */
     private static final class Chain {
-        static final int WHOLE = 0, BROKEN = 1, OPEN = 2;
+        private static final int WHOLE = 0, BROKEN = 1, OPEN = 2;
         private final int[] row = new int[NUMBERS];
         private int size;
 
@@ -660,7 +667,7 @@ public final class BitmapVolume {
 
         static int sum(Disk disk, int a, int octets) {
             int s = 0;
-            for (int i = 0; i < octets; i++) s = Integer.rotateRight(s, 1) + disk.get(a + i);
+            for (int i = 0; i < octets; i++) s = (s >>> 1 | s << 31) + disk.get(a + i);
             return s;
         }
 
@@ -692,6 +699,10 @@ public final class BitmapVolume {
      * and the NAMES lie in the DIRECTORY's next one (the tail).
      */
     private static final class Sets {
+        /** Offsets from the head; STREAM's are 32 more than its own. */
+        private static final int FOLLOWING = 1, SUM = 2, ATTRIBUTES = 4, MADE = 8, CHANGED = 12;
+        private static final int RUN = 33, NAME_SIZE = 35, HASH = 36, LENGTH_AGAIN = 40, FIRST = 52, LENGTH = 56;
+
         private final Disk disk;
         private final Cases cases;
 
@@ -705,35 +716,35 @@ public final class BitmapVolume {
         }
 
         int entries(int head) {
-            return 1 + disk.get(head + 1);
+            return 1 + disk.get(head + FOLLOWING);
         }
 
         int attributes(int head) {
-            return disk.get2(head + 4);
+            return disk.get2(head + ATTRIBUTES);
         }
 
         boolean isDirectory(int head) {
-            return (attributes(head) & IS_DIRECTORY) != 0;
+            return (disk.get2(head + ATTRIBUTES) & IS_DIRECTORY) != 0;
         }
 
         boolean isReadOnly(int head) {
-            return (attributes(head) & READ_ONLY) != 0;
+            return (disk.get2(head + ATTRIBUTES) & READ_ONLY) != 0;
         }
 
         boolean isRun(int head) {
-            return disk.get(head + 33) == 3;
+            return disk.get(head + RUN) == 3;
         }
 
         int nameSize(int head) {
-            return disk.get(head + 35);
+            return disk.get(head + NAME_SIZE);
         }
 
         int first(int head) {
-            return disk.get4(head + 52);
+            return disk.get4(head + FIRST);
         }
 
         int length(int head) {
-            return disk.get4(head + 56);
+            return disk.get4(head + LENGTH);
         }
 
         int clusters(int head) {
@@ -741,7 +752,11 @@ public final class BitmapVolume {
         }
 
         int letterAt(int tail, int i) {
-            return disk.get2(tail + 2 * i + (i < 15 ? 2 : 4));
+            return disk.get2(letterAddress(tail, i));
+        }
+
+        private static int letterAddress(int tail, int i) {
+            return tail + 2 * i + (i < 15 ? 2 : 4);
         }
 
         int tells(int head, int what) {
@@ -751,10 +766,10 @@ public final class BitmapVolume {
                 case 2: return first(head);
                 case 3: return isRun(head) ? 1 : 0;
                 case 4: return nameSize(head);
-                case 5: return disk.get2(head + 36);
-                case 6: return disk.get2(head + 2);
-                case 7: return disk.get4(head + 8);
-                default: return disk.get4(head + 12);
+                case 5: return disk.get2(head + HASH);
+                case 6: return disk.get2(head + SUM);
+                case 7: return disk.get4(head + MADE);
+                default: return disk.get4(head + CHANGED);
             }
         }
 
@@ -768,14 +783,15 @@ public final class BitmapVolume {
         }
 
         void readName(Name name, int head, int tail) {
-            name.size = 0;
-            for (int i = 0; i < nameSize(head) && i < MOST_LETTERS; i++) name.row[name.size++] = letterAt(tail, i);
+            int letters = Math.min(disk.get(head + NAME_SIZE), MOST_LETTERS);
+            for (int i = 0; i < letters; i++) name.row[i] = disk.get2(letterAddress(tail, i));
+            name.size = letters;
         }
 
         boolean isLike(Name name, int head, int tail) {
-            if (name.size != nameSize(head)) return false;
+            if (name.size != disk.get(head + NAME_SIZE)) return false;
             for (int i = 0; i < name.size; i++) {
-                if (cases.greatOf(name.at(i)) != cases.greatOf(letterAt(tail, i))) return false;
+                if (cases.greatOf(name.at(i)) != cases.greatOf(disk.get2(letterAddress(tail, i)))) return false;
             }
             return true;
         }
@@ -786,7 +802,7 @@ public final class BitmapVolume {
             if ((attributes(head) & ~(READ_ONLY | IS_DIRECTORY)) != 0) return false;
             if (!disk.isBlank(head + 6, head + 8) || !disk.isBlank(head + 16, head + ENTRY)) return false;
             return isRightStream(head) && isRightLength(head, n) && isRightName(head, tail, name)
-                && sum(head, tail) == disk.get2(head + 2);
+                && sum(head, tail) == disk.get2(head + SUM);
         }
 
         private boolean isRightStream(int head) {
@@ -799,8 +815,8 @@ public final class BitmapVolume {
 
         private boolean isRightLength(int head, int n) {
             int length = length(head);
-            if (length < 0 || length > CLUSTER * n || !disk.isBlank(head + 60, head + 64)) return false;
-            if (disk.get4(head + 40) != length || !disk.isBlank(head + 44, head + 48)) return false;
+            if (length < 0 || length > CLUSTER * n || disk.get4(head + LENGTH_AGAIN) != length) return false;
+            if (disk.get4(head + LENGTH + 4) != 0 || disk.get4(head + LENGTH_AGAIN + 4) != 0) return false;
             if (isDirectory(head) && (length == 0 || length % CLUSTER != 0)) return false;
             if (length == 0) return first(head) == 0 && !isRun(head);
             return first(head) >= 2 && first(head) <= n + 1;
@@ -810,7 +826,7 @@ public final class BitmapVolume {
             int size = nameSize(head);
             if (size > MOST_LETTERS || entries(head) != Name.entriesOf(size)) return false;
             readName(name, head, tail);
-            if (!name.isRight() || cases.hash(name) != disk.get2(head + 36)) return false;
+            if (!name.isRight() || cases.hash(name) != disk.get2(head + HASH)) return false;
             for (int i = 0; i < entries(head) - 2; i++) {
                 if (disk.get(tail + ENTRY * i) != NAME_TYPE || disk.get(tail + ENTRY * i + 1) != 0) return false;
             }
@@ -826,44 +842,44 @@ public final class BitmapVolume {
             disk.blank(head, 2 * ENTRY);
             disk.blank(tail, names * ENTRY);
             disk.put(head, FILE_TYPE);
-            disk.put(head + 1, 1 + names);
+            disk.put(head + FOLLOWING, 1 + names);
             disk.put(head + ENTRY, STREAM_TYPE);
-            disk.put(head + 33, 1);
-            disk.put(head + 35, name.size);
-            disk.put2(head + 36, cases.hash(name));
+            disk.put(head + RUN, 1);
+            disk.put(head + NAME_SIZE, name.size);
+            disk.put2(head + HASH, cases.hash(name));
             for (int i = 0; i < names; i++) disk.put(tail + ENTRY * i, NAME_TYPE);
-            for (int i = 0; i < name.size; i++) disk.put2(tail + 2 * i + (i < 15 ? 2 : 4), name.at(i));
+            for (int i = 0; i < name.size; i++) disk.put2(letterAddress(tail, i), name.at(i));
         }
 
         void setAttributes(int head, int attributes) {
-            disk.put2(head + 4, attributes);
+            disk.put2(head + ATTRIBUTES, attributes);
         }
 
         void setMade(int head, int time) {
-            disk.put4(head + 8, time);
+            disk.put4(head + MADE, time);
         }
 
         void setChanged(int head, int time) {
-            disk.put4(head + 12, time);
+            disk.put4(head + CHANGED, time);
         }
 
         void setStream(int head, boolean isRun, int first, int length) {
-            disk.put(head + 33, isRun ? 3 : 1);
-            disk.put4(head + 40, length);
-            disk.put4(head + 52, first);
-            disk.put4(head + 56, length);
+            disk.put(head + RUN, isRun ? 3 : 1);
+            disk.put4(head + LENGTH_AGAIN, length);
+            disk.put4(head + FIRST, first);
+            disk.put4(head + LENGTH, length);
         }
 
         /** What a new SET of the same file has as the old one: all but its NAME. */
         void copyBody(int head, int from) {
             setAttributes(head, attributes(from));
-            setMade(head, disk.get4(from + 8));
-            setChanged(head, disk.get4(from + 12));
+            setMade(head, disk.get4(from + MADE));
+            setChanged(head, disk.get4(from + CHANGED));
             setStream(head, isRun(from), first(from), length(from));
         }
 
         void seal(int head, int tail) {
-            disk.put2(head + 2, sum(head, tail));
+            disk.put2(head + SUM, sum(head, tail));
         }
 
         void unuse(int head, int tail) {
@@ -879,20 +895,6 @@ public final class BitmapVolume {
         }
     }
 
-    /** The latest FAULT and its place. */
-    private static final class Fault {
-        private int number;
-        private int inCluster;
-        private int entry;
-
-        int set(int newNumber, int newCluster, int newEntry) {
-            number = newNumber;
-            inCluster = newCluster;
-            entry = newEntry;
-            return newNumber;
-        }
-    }
-
     /** The questions of mounting, and mending. */
     private static final class Check {
         private final Disk disk;
@@ -900,7 +902,7 @@ public final class BitmapVolume {
         private final Space space;
         private final Sets sets;
         private final Cases cases;
-        private final Fault found;
+        private final Tree tree;
         private final Chain dir = new Chain();
         private final Chain own = new Chain();
         private final Name name = new Name();
@@ -911,30 +913,41 @@ public final class BitmapVolume {
         private boolean mends;
         private int mended;
         private boolean bySecond;
+        /** The latest FAULT and its place. */
+        private int faultNumber;
+        private int faultCluster;
+        private int faultEntry;
 
-        Check(Disk disk, Boot boot, Space space, Sets sets, Cases cases, Fault found) {
+        Check(Disk disk, Boot boot, Space space, Sets sets, Cases cases, Tree tree) {
             this.disk = disk;
             this.boot = boot;
             this.space = space;
             this.sets = sets;
             this.cases = cases;
-            this.found = found;
+            this.tree = tree;
+        }
+
+        private int found(int number, int inCluster, int entry) {
+            faultNumber = number;
+            faultCluster = inCluster;
+            faultEntry = entry;
+            return number;
         }
 
         /** Questions 1 to 4: the FAULT, or 0. */
         int askBase() {
             boolean byFirst = boot.isRight(0);
-            if (!byFirst && !boot.isRight(REGION)) return found.set(1, 0, 0);
+            if (!byFirst && !boot.isRight(REGION)) return found(1, 0, 0);
             bySecond = !byFirst;
             int at = byFirst ? 0 : REGION;
             space.n = disk.get4(at + 32);
             space.root = disk.get4(at + 36);
-            if (space.fat(0) != FAT_OF_0) return found.set(2, 0, 0);
-            if (space.fat(1) != END) return found.set(2, 1, 0);
+            if (space.fat(0) != FAT_OF_0) return found(2, 0, 0);
+            if (space.fat(1) != END) return found(2, 1, 0);
             int broken = meetRoot();
-            if (broken != 0) return found.set(3, broken, 0);
-            if (!meetBitmap(Space.address(space.root))) return found.set(4, space.root, 0);
-            if (!meetCases(Space.address(space.root) + ENTRY)) return found.set(4, space.root, 1);
+            if (broken != 0) return found(3, broken, 0);
+            if (!meetBitmap(Space.address(space.root))) return found(4, space.root, 0);
+            if (!meetCases(Space.address(space.root) + ENTRY)) return found(4, space.root, 1);
             return 0;
         }
 
@@ -983,40 +996,41 @@ public final class BitmapVolume {
             return cases.learn(Space.address(c), octets);
         }
 
-        /** Questions 5 to 9, behind askBase(): the FAULT, or 0. */
-        int askRest() {
-            mends = false;
-            if (!askTree()) return found.number;
-            return isRightBitmap() ? 0 : found.set(9, 0, 0);
+        /** Question 9, behind the others: the FAULT, or 0. */
+        int askBitmap() {
+            return isRightBitmap() ? 0 : found(9, 0, 0);
         }
 
-        int mendRest() {
-            if (bySecond) {
-                for (int i = 0; i < REGION; i++) disk.put(i, disk.get(REGION + i));
-                if (!disk.flush()) return OFF;
-            }
-            mends = true;
-            mended = 0;
-            askTree();
-            if (!disk.flush(FAT_FIRST_SECTOR, FAT_LAST_SECTOR) || !disk.flush()) return OFF;
+        /** THE SECOND, if it is used, goes to the first region: false if power failed. */
+        boolean mendBoot() {
+            for (int i = 0; i < REGION && bySecond; i++) disk.put(i, disk.get(REGION + i));
+            return disk.flush();
+        }
+
+        /** PHASES T and E of what askTree() mended, then B: false if power failed. */
+        boolean mendRest() {
+            if (!disk.flush(FAT_FIRST_SECTOR, FAT_LAST_SECTOR) || !disk.flush()) return false;
             if (!isRightBitmap()) {
                 mended++;
                 layBitmap();
             }
-            return disk.flush() ? mended : OFF;
+            return disk.flush();
         }
 
-        private boolean askTree() {
+        /** Questions 5 to 8, behind askBase(): the FAULT, or 0. Mending, it meets none, and nothing is WRITTEN yet. */
+        int askTree(boolean isMending) {
+            mends = isMending;
+            mended = 0;
             queue[0] = ROOT;
             queued = 1;
             for (int i = 0; i < queued && i < queue.length; i++) {
-                if (!askDirectory(queue[i])) return false;
+                if (!askDirectory(queue[i])) return faultNumber;
             }
-            return true;
+            return 0;
         }
 
         private boolean askDirectory(int place) {
-            openDirectory(place);
+            tree.open(place, dir);
             boolean isOver = false;
             int passed = place == ROOT ? 2 : 0;
             for (int p = passed; p < dir.places(); p++) {
@@ -1035,16 +1049,10 @@ public final class BitmapVolume {
             return true;
         }
 
-        private void openDirectory(int place) {
-            int head = Tree.headOf(place);
-            if (place == ROOT) dir.traceToEnd(space, space.root);
-            else dir.trace(space, sets.first(head), sets.isRun(head), sets.clusters(head));
-        }
-
         /** Something is not so at a place of the DIRECTORY: true if it is mended, else it is the FAULT. */
         private boolean strike(int p, int fault) {
             if (mends) mended++;
-            else found.set(fault, dir.at(p / 4), p % 4);
+            else found(fault, dir.at(p / 4), p % 4);
             return mends;
         }
 
