@@ -1082,7 +1082,7 @@ public final class BitmapVolume {
             return entries;
         }
 
-        /** Questions 6 to 8 of the SET at p, whose CLUSTERS are traced: mending takes a chain that just lacks its END. */
+        /** Questions 6 to 8 of the SET at p, once traced: mending lets a chain pass that just lacks its END. */
         private int faultOf(int p, int state) {
             if (state == Chain.BROKEN || state == Chain.OPEN && !mends) return 6;
             for (int i = 0; i < own.size; i++) {
@@ -1126,8 +1126,9 @@ public final class BitmapVolume {
         private final Disk disk;
         private final Space space;
         private final Sets sets;
-        /** Of each CLUSTER: the PLACE of the DIRECTORY that it belongs to (-1: of none), and that DIRECTORY's next CLUSTER. */
+        /** Of each CLUSTER the PLACE of the DIRECTORY that it belongs to; -1: of none. */
         private final int[] holder = new int[NUMBERS];
+        /** Of each CLUSTER of a DIRECTORY the one behind it; 0: none. */
         private final int[] behind = new int[NUMBERS];
         private final int[] queue = new int[NUMBERS];
         private int queued;

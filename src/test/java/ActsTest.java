@@ -430,6 +430,24 @@ public final class ActsTest {
         dueRight("3", x);
     }
 
+    private static void lastSector() {
+        BitmapVolume x = Due.mounted(100);
+        int a = Due.file(x, 0, "a");
+        for (int i = 0; i < 12; i++) Due.due("16: write", x.write(a, 1024 * i, 1024, i), 1024 * (i + 1));
+        Due.due("16: the last CLUSTER", x.cluster(a, 95), 101);
+        Due.due("25: none is free", x.count(1), 0);
+        Due.due("16: its last OCTET", x.octet(215, 63), 11 + 1023 & 255);
+        x.cut(a, 12160);
+        x.cut(a, 128);
+        int b = Due.file(x, 0, "b");
+        x.write(b, 0, 1, 0);
+        for (int i = 0; i < 11; i++) x.write(a, 128 + 1024 * i, 1024, i);
+        Due.due("16: all that is free", x.write(a, 11392, 640, 7), 12032);
+        Due.due("16: a chain to the end", x.cluster(a, 93) * 100 - Due.fat(x, 100) + Due.fat(x, 101), 10100 - 101 - 1);
+        dueRight("16", x);
+        Due.due("8: all", x.octet(0, 49), 100);
+    }
+
     public static void main(String[] args) {
         making();
         makingRefused();
@@ -445,6 +463,7 @@ public final class ActsTest {
         orders();
         directoriesGrow();
         rowsOfEntries();
+        lastSector();
         Due.end();
     }
 }

@@ -72,6 +72,31 @@ public final class MountTest {
         Due.due("9: mend() without one", x.mend(), -11);
     }
 
+    /** One number of the first region becomes another, its SUM is right then; THE SECOND is not. */
+    private static void numbersOfBoot() {
+        int[][] rows = {{32, 15, -11}, {32, 101, -11}, {32, 0, -11}, {36, 1, -11}, {36, 0, -11}, {36, 22, -11}, {36, 102, -11},
+            {36, 21, -13}, {16, 58, -11}, {40, 99, 1}};
+        for (int[] r : rows) {
+            BitmapVolume x = base();
+            x.spoil(4, 0, 0);
+            x.spoil(0, r[0], r[1]);
+            if (r[0] == 32) x.spoil(0, 16, 16 + 2 * r[1]);
+            long sum = 0;
+            for (int i = 0; i < 192; i++) if (i != 44 && i != 45 && i != 49) sum = Due.roll32(sum, Due.at(x, i));
+            for (int i = 0; i < 64; i += 4) Due.put(x, 192 + i, 4, sum);
+            Due.due("1: OCTET " + r[0] + " is " + r[1], x.mount(), r[2]);
+        }
+    }
+
+    private static void wholeRegion() {
+        BitmapVolume x = base();
+        for (int s = 0; s < 4; s++) for (int i = 0; i < 64; i++) x.spoil(s, i, 255 - x.octet(s, i));
+        Due.due("9: a region that is gone", x.mend(), 0);
+        int differ = 0;
+        for (int i = 0; i < 256; i++) if (Due.at(x, i) != Due.at(x, 256 + i)) differ++;
+        Due.due("9: it is THE SECOND's", differ, 0);
+    }
+
     private static void mountedBySecond() {
         BitmapVolume x = base();
         x.spoil(0, 32, 50);
@@ -167,6 +192,15 @@ public final class MountTest {
         Due.due("4: 255 as great letter", withCases(255).mount(), 1);
         Due.due("4: not its own", withCases(1, 2).mount(), -14);
         Due.due("4: its own later", withCases(1, 1).mount(), 1);
+        int[][] sizes = {{127, -14}, {126, 1}, {128, 1}, {130, -14}, {1, -14}, {2, 1}, {0, -14}, {384, -14}};
+        for (int[] z : sizes) {
+            BitmapVolume y = withCases(new int[64]);
+            long sum = 0;
+            for (int i = 0; i < z[0]; i++) sum = Due.roll32(sum, Due.at(y, 18 * 64 + i));
+            Due.put(y, 20 * 64 + 32 + 24, 4, z[0]);
+            Due.put(y, 20 * 64 + 32 + 4, 4, sum);
+            Due.due("4: a table of " + z[0] + " OCTETS", y.mount(), z[1]);
+        }
         BitmapVolume x = withCases(65535, 97, 98);
         x.mount();
         int a = Due.file(x, 0, "a");
@@ -201,6 +235,24 @@ public final class MountTest {
         dueMend("9: FILE, STREAM, NAME and the BITMAP", x, 4);
         Due.due("9: a went", x.list(0, 0), 22);
         Due.due("9: its TYPES", x.octet(21, 0) * 1000000 + x.octet(21, 32) * 1000 + x.octet(22, 0), 5064065);
+    }
+
+    private static void numbersOfNames() {
+        BitmapVolume x = base();
+        x.spoil(32, 1, 3);
+        x.spoil(33, 32, 193);
+        Due.seal(x, 32, 33);
+        dueFault("5: a second NAME without letters", x, 5, 10, 0);
+        x = Due.mounted(20);
+        Due.file(x, 0, "0123456789abcde");
+        int d = Due.file(x, 0, "0123456789abcdef");
+        Due.due("5: 16 letters", x.octet(23, 1) * 1000 + d, 3022);
+        x.unmount();
+        Due.due("5: 15 and 16 letters", x.mount(), 1);
+        x.unmount();
+        x.spoil(23, 1, 2);
+        Due.seal(x, 23, 24);
+        dueFault("5: a second NAME lacks", x, 5, 5, 2);
     }
 
     private static void lengths() {
@@ -435,11 +487,14 @@ public final class MountTest {
     public static void main(String[] args) {
         layout();
         bootRegions();
+        numbersOfBoot();
+        wholeRegion();
         mountedBySecond();
         fatFaults();
         baseEntries();
         tables();
         setFaults();
+        numbersOfNames();
         lengths();
         placesOfSets();
         clusterFaults();
