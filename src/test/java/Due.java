@@ -1,3 +1,5 @@
+import java.util.Arrays;
+
 /** What the tests share: counting wrong answers, short ways to say a NAME, and the order of WRITTEN SECTORS. */
 final class Due {
     private static int wrong = 0;
@@ -29,6 +31,37 @@ final class Due {
         BitmapVolume x = new BitmapVolume();
         x.format(n, 1);
         x.mount();
+        return x;
+    }
+
+    /**
+     * ROOT 4 5 8 11; a (18) ONE RUN 6 7, head SECTOR 21, tail 22; b (22) 9, head 23, tail 28;
+     * d (34) a DIRECTORY, 10, head 29, tail 34; c (40) in it, empty, head 32, tail 33. Not mounted.
+     */
+    static BitmapVolume base() {
+        BitmapVolume x = mounted(20);
+        file(x, 0, "a");
+        x.write(18, 0, 200, 1);
+        file(x, 0, "b");
+        x.write(22, 0, 100, 2);
+        dir(x, 0, "d");
+        file(x, 34, "c");
+        x.unmount();
+        return x;
+    }
+
+    /** A volume whose table of great letters is another one, with its SUM. */
+    static BitmapVolume withCases(int... table) {
+        BitmapVolume x = new BitmapVolume();
+        x.format(20, 1);
+        long sum = 0;
+        for (int i = 0; i < 2 * table.length; i++) {
+            int v = table[i / 2] >> 8 * (i % 2) & 255;
+            if (i < 128) x.spoil(18 + i / 64, i % 64, v);
+            sum = roll32(sum, v);
+        }
+        put(x, 20 * 64 + 32 + 4, 4, sum);
+        put(x, 20 * 64 + 32 + 24, 4, 2L * table.length);
         return x;
     }
 
@@ -121,10 +154,28 @@ final class Due {
         long on(BitmapVolume x);
     }
 
-    private static int[][] disk(BitmapVolume x) {
-        int[][] d = new int[216][64];
-        for (int s = 0; s < 216; s++) for (int i = 0; i < 64; i++) d[s][i] = x.octet(s, i);
+    /** How many OCTETS are read from one object: behind its 512th call its answers are free. */
+    private static final int SLICE = 384;
+
+    /** The whole disk behind an act, read from so many objects made alike that none is used for too many calls. */
+    static int[] disk(Setup setup, Act act) {
+        int[] d = new int[216 * 64];
+        for (int from = 0; from < d.length; from += SLICE) {
+            BitmapVolume x = setup.make();
+            act.on(x);
+            for (int a = from; a < from + SLICE && a < d.length; a++) d[a] = at(x, a);
+        }
         return d;
+    }
+
+    /** The numbers of the SECTORS in which two disks differ. */
+    static String changed(int[] before, int[] after) {
+        StringBuilder b = new StringBuilder();
+        for (int s = 0; s < 216; s++) {
+            if (Arrays.equals(before, 64 * s, 64 * s + 64, after, 64 * s, 64 * s + 64)) continue;
+            b.append(b.length() == 0 ? "" : " ").append(s);
+        }
+        return b.toString();
     }
 
     /**
@@ -133,25 +184,24 @@ final class Due {
      */
     static String order(String what, Setup setup, Act act) {
         StringBuilder order = new StringBuilder();
-        int[][] before = disk(setup.make());
+        int[] before = disk(setup, x -> 0);
         for (int m = 1; m <= 100; m++) {
+            int power = m;
+            Act failing = x -> {
+                x.fail(power);
+                return act.on(x);
+            };
+            int[] after = disk(setup, failing);
+            order.append(m > 1 ? " " : "").append(changed(before, after));
+            before = after;
             BitmapVolume x = setup.make();
             int written = x.count(4);
-            x.fail(m);
-            long answer = act.on(x);
-            int[][] after = disk(x);
-            String changed = "";
-            for (int s = 0; s < 216; s++) if (!java.util.Arrays.equals(before[s], after[s])) changed += " " + s;
-            if (m > 1) order.append(changed);
-            before = after;
-            if (answer != BitmapVolume.OFF) {
-                due(what + " wrote", x.count(4) - written, m - 1);
-                return order.toString().trim();
-            }
-            due(what + " failed at " + m + ": count(4)", x.count(4) - written, m - 1);
-            due(what + " failed at " + m + ": count(5)", x.count(5), 0);
-            due(what + " failed at " + m + ": mend() mends", x.mend() >= 0 ? 1 : 0, 1);
-            due(what + " failed at " + m + ": mount()", x.mount(), 1);
+            long answer = failing.on(x);
+            due(what + ", power fails at " + m + ": WRITTEN", x.count(4) - written, m - 1);
+            if (answer != BitmapVolume.OFF) return order.toString().trim();
+            due(what + ", power fails at " + m + ": count(5)", x.count(5), 0);
+            due(what + ", power fails at " + m + ": mend() mends", x.mend() >= 0 ? 1 : 0, 1);
+            due(what + ", power fails at " + m + ": mount()", x.mount(), 1);
         }
         return order + " .. without end";
     }

@@ -2,22 +2,6 @@
 public final class MountTest {
     private static final long END = 4294967295L;
 
-    /**
-     * ROOT 4 5 8 11; a (18) ONE RUN 6 7, head SECTOR 21, tail 22; b (22) 9, head 23, tail 28;
-     * d (34) a DIRECTORY, 10, head 29, tail 34; c (40) in it, empty, head 32, tail 33. Not mounted.
-     */
-    private static BitmapVolume base() {
-        BitmapVolume x = Due.mounted(20);
-        Due.file(x, 0, "a");
-        x.write(18, 0, 200, 1);
-        Due.file(x, 0, "b");
-        x.write(22, 0, 100, 2);
-        Due.dir(x, 0, "d");
-        Due.file(x, 34, "c");
-        x.unmount();
-        return x;
-    }
-
     private static void dueFault(String what, BitmapVolume x, int number, int cluster, int entry) {
         Due.due(what + ": mount()", x.mount(), -10 - number);
         Due.due(what + ": count(5)", x.count(5), 0);
@@ -34,7 +18,7 @@ public final class MountTest {
     }
 
     private static void layout() {
-        BitmapVolume x = base();
+        BitmapVolume x = Due.base();
         int written = x.count(4);
         Due.due("6: mount()", x.mount(), 1);
         Due.due("6: nothing WRITTEN", x.count(4), written);
@@ -51,7 +35,7 @@ public final class MountTest {
         for (int s = 0; s < 4; s++) {
             for (int i = 0; i < 64; i++) {
                 if (s == 0 && (i == 44 || i == 49)) continue;
-                BitmapVolume x = base();
+                BitmapVolume x = Due.base();
                 x.spoil(s, i, x.octet(s, i) ^ 1);
                 Due.due("6: OCTET " + i + " of SECTOR " + s, x.mount(), 2);
             }
@@ -59,11 +43,11 @@ public final class MountTest {
         int[][] rows = {{44, 0, 1}, {44, 2, 1}, {44, 1, 2}, {44, 3, 2}, {44, 4, 2}, {45, 2, 2},
             {49, 0, 1}, {49, 100, 1}, {49, 101, 2}, {49, 254, 2}, {49, 255, 1}};
         for (int[] r : rows) {
-            BitmapVolume x = base();
+            BitmapVolume x = Due.base();
             x.spoil(0, r[0], r[1]);
             Due.due("6: OCTET " + r[0] + " is " + r[1], x.mount(), r[2]);
         }
-        BitmapVolume x = base();
+        BitmapVolume x = Due.base();
         x.spoil(4, 0, 0);
         Due.due("6: THE SECOND is not asked for", x.mount(), 1);
         x.unmount();
@@ -77,7 +61,7 @@ public final class MountTest {
         int[][] rows = {{32, 15, -11}, {32, 101, -11}, {32, 0, -11}, {36, 1, -11}, {36, 0, -11}, {36, 22, -11}, {36, 102, -11},
             {36, 21, -13}, {16, 58, -11}, {40, 99, 1}};
         for (int[] r : rows) {
-            BitmapVolume x = base();
+            BitmapVolume x = Due.base();
             x.spoil(4, 0, 0);
             x.spoil(0, r[0], r[1]);
             if (r[0] == 32) x.spoil(0, 16, 16 + 2 * r[1]);
@@ -89,7 +73,7 @@ public final class MountTest {
     }
 
     private static void wholeRegion() {
-        BitmapVolume x = base();
+        BitmapVolume x = Due.base();
         for (int s = 0; s < 4; s++) for (int i = 0; i < 64; i++) x.spoil(s, i, 255 - x.octet(s, i));
         Due.due("9: a region that is gone", x.mend(), 0);
         int differ = 0;
@@ -98,7 +82,7 @@ public final class MountTest {
     }
 
     private static void mountedBySecond() {
-        BitmapVolume x = base();
+        BitmapVolume x = Due.base();
         x.spoil(0, 32, 50);
         Due.due("6: by THE SECOND", x.mount(), 2);
         Due.due("6: its N", x.count(0), 20);
@@ -118,7 +102,7 @@ public final class MountTest {
     }
 
     private static void fatFaults() {
-        BitmapVolume x = base();
+        BitmapVolume x = Due.base();
         Due.setFat(x, 1, 0);
         dueFault("2: FAT 1", x, 2, 1, 0);
         Due.setFat(x, 0, END);
@@ -126,13 +110,13 @@ public final class MountTest {
         Due.due("9: mend()", x.mend(), -12);
         long[][] rows = {{5, 0, 5}, {5, 1, 5}, {11, 4, 11}, {11, 11, 11}, {8, 22, 8}, {8, 21, 21}, {8, END - 1, 8}};
         for (long[] r : rows) {
-            x = base();
+            x = Due.base();
             Due.setFat(x, (int) r[0], r[1]);
             dueFault("3: FAT " + r[0] + " is " + r[1], x, 3, (int) r[2], 0);
             Due.due("9: mend()", x.mend(), -13);
             Due.due("7: of mend()", x.fault(1), r[2]);
         }
-        x = base();
+        x = Due.base();
         Due.setFat(x, 22, 7);
         x.spoil(15, 0, 7);
         Due.due("6: behind the FAT's N + 1", x.mount(), 1);
@@ -140,68 +124,53 @@ public final class MountTest {
 
     private static void baseEntries() {
         for (int i = 0; i < 64; i++) {
-            BitmapVolume x = base();
+            BitmapVolume x = Due.base();
             x.spoil(20, i, x.octet(20, i) + (i == 20 ? 2 : 1));
             dueFault("4: OCTET " + i, x, 4, 4, i / 32);
             Due.due("9: mend()", x.mend(), -14);
         }
         int[][] rows = {{2, 0, 0}, {2, 3, 0}, {3, 0, 1}, {3, 2, 1}};
         for (int[] r : rows) {
-            BitmapVolume x = base();
+            BitmapVolume x = Due.base();
             Due.setFat(x, r[0], r[1]);
             dueFault("4: FAT " + r[0] + " is " + r[1], x, 4, 4, r[2]);
         }
         int[][] others = {{20, 5, 0}, {20, 0, 0}, {20, 1, 0}, {20, 22, 0}, {52, 2, 1}, {52, 11, 1}, {52, 22, 1}};
         for (int[] r : others) {
-            BitmapVolume x = base();
+            BitmapVolume x = Due.base();
             x.spoil(20, r[0], r[1]);
             dueFault("4: CLUSTER " + r[1], x, 4, 4, r[2]);
         }
-        BitmapVolume x = base();
+        BitmapVolume x = Due.base();
         x.spoil(18, 5, 200);
         dueFault("4: CASES' SUM", x, 4, 4, 1);
     }
 
-    /** Lays a table of great letters with its SUM into CLUSTER 3. */
-    private static BitmapVolume withCases(int... table) {
-        BitmapVolume x = new BitmapVolume();
-        x.format(20, 1);
-        long sum = 0;
-        for (int i = 0; i < 2 * table.length; i++) {
-            int v = table[i / 2] >> 8 * (i % 2) & 255;
-            if (i < 128) x.spoil(18 + i / 64, i % 64, v);
-            sum = Due.roll32(sum, v);
-        }
-        Due.put(x, 20 * 64 + 32 + 4, 4, sum);
-        Due.put(x, 20 * 64 + 32 + 24, 4, 2L * table.length);
-        return x;
-    }
-
     private static void tables() {
-        Due.due("4: the least table", withCases(0).mount(), 1);
-        Due.due("4: none", withCases().mount(), -14);
-        Due.due("4: 65 OCTETS too many", withCases(new int[65]).mount(), -14);
-        Due.due("4: all are 0's", withCases(new int[64]).mount(), 1);
-        Due.due("4: 256 letters", withCases(65535, 255, 255).mount(), 1);
-        Due.due("4: 257 letters", withCases(65535, 256, 255).mount(), -14);
-        Due.due("4: 256 and no more", withCases(65535, 256, 65535, 0).mount(), 1);
-        Due.due("4: 257 of their own", withCases(65535, 257).mount(), -14);
-        Due.due("4: 65535 of their own", withCases(65535, 65535).mount(), -14);
-        Due.due("4: something lacks", withCases(0, 65535).mount(), -14);
-        Due.due("4: 256 as great letter", withCases(256).mount(), -14);
-        Due.due("4: 255 as great letter", withCases(255).mount(), 1);
-        Due.due("4: not its own", withCases(1, 2).mount(), -14);
-        Due.due("4: its own later", withCases(1, 1).mount(), 1);
+        Due.due("4: the least table", Due.withCases(0).mount(), 1);
+        Due.due("4: none", Due.withCases().mount(), -14);
+        Due.due("4: 65 OCTETS too many", Due.withCases(new int[65]).mount(), -14);
+        Due.due("4: all are 0's", Due.withCases(new int[64]).mount(), 1);
+        Due.due("4: 256 letters", Due.withCases(65535, 255, 255).mount(), 1);
+        Due.due("4: 257 letters", Due.withCases(65535, 256, 255).mount(), -14);
+        Due.due("4: 256 and no more", Due.withCases(65535, 256, 65535, 0).mount(), 1);
+        Due.due("4: 257 of their own", Due.withCases(65535, 257).mount(), -14);
+        Due.due("4: 65535 of their own", Due.withCases(65535, 65535).mount(), -14);
+        Due.due("4: something lacks", Due.withCases(0, 65535).mount(), -14);
+        Due.due("4: 256 as great letter", Due.withCases(256).mount(), -14);
+        Due.due("4: 255 as great letter", Due.withCases(255).mount(), 1);
+        Due.due("4: not its own", Due.withCases(1, 2).mount(), -14);
+        Due.due("4: its own later", Due.withCases(1, 1).mount(), 1);
         int[][] sizes = {{127, -14}, {126, 1}, {128, 1}, {130, -14}, {1, -14}, {2, 1}, {0, -14}, {384, -14}};
         for (int[] z : sizes) {
-            BitmapVolume y = withCases(new int[64]);
+            BitmapVolume y = Due.withCases(new int[64]);
             long sum = 0;
             for (int i = 0; i < z[0]; i++) sum = Due.roll32(sum, Due.at(y, 18 * 64 + i));
             Due.put(y, 20 * 64 + 32 + 24, 4, z[0]);
             Due.put(y, 20 * 64 + 32 + 4, 4, sum);
             Due.due("4: a table of " + z[0] + " OCTETS", y.mount(), z[1]);
         }
-        BitmapVolume x = withCases(65535, 97, 98);
+        BitmapVolume x = Due.withCases(65535, 97, 98);
         x.mount();
         int a = Due.file(x, 0, "a");
         Due.due("8: a is LIKE b", Due.look(x, 0, "b"), a);
@@ -214,7 +183,7 @@ public final class MountTest {
             {34, 1}, {35, 0}, {35, 2}, {35, 16}, {36, 1}, {38, 1}, {39, 1}, {40, 201}, {44, 1}, {47, 1}, {48, 1},
             {51, 1}, {52, 0}, {52, 1}, {52, 22}, {53, 1}, {55, 1}, {56, 201}, {60, 1}, {63, 1}};
         for (int[] h : heads) {
-            BitmapVolume x = base();
+            BitmapVolume x = Due.base();
             x.spoil(21, h[0], h[1]);
             if (h[0] != 1) Due.seal(x, 21, 22);
             if (h[0] == 0) Due.due("5: TYPE 5 is UNUSED, the next is not", x.mount(), -15);
@@ -222,14 +191,14 @@ public final class MountTest {
         }
         int[][] tails = {{0, 65}, {1, 1}, {2, 0}, {2, 42}, {2, 32}, {2, 46}, {2, 31}, {2, 127}, {2, 159}, {3, 1}, {4, 98}, {31, 1}};
         for (int[] t : tails) {
-            BitmapVolume x = base();
+            BitmapVolume x = Due.base();
             x.spoil(22, t[0], t[1]);
             int great = x.octet(22, 2) >= 97 && x.octet(22, 2) < 123 ? x.octet(22, 2) - 32 : x.octet(22, 2);
             Due.put(x, 21 * 64 + 36, 2, Due.roll(Due.roll(0, great), x.octet(22, 3)));
             Due.seal(x, 21, 22);
             dueFault("5: OCTET " + t[0] + " of the NAME is " + t[1], x, 5, 4, 2);
         }
-        BitmapVolume x = base();
+        BitmapVolume x = Due.base();
         x.spoil(21, 8, 1);
         dueFault("5: THE SET'S SUM", x, 5, 4, 2);
         dueMend("9: FILE, STREAM, NAME and the BITMAP", x, 4);
@@ -238,7 +207,7 @@ public final class MountTest {
     }
 
     private static void numbersOfNames() {
-        BitmapVolume x = base();
+        BitmapVolume x = Due.base();
         x.spoil(32, 1, 3);
         x.spoil(33, 32, 193);
         Due.seal(x, 32, 33);
@@ -258,7 +227,7 @@ public final class MountTest {
     private static void lengths() {
         int[][] rows = {{40, 2560, 6}, {40, 2561, 5}, {18, 0, 5}};
         for (int[] r : rows) {
-            BitmapVolume x = base();
+            BitmapVolume x = Due.base();
             int head = r[0] == 40 ? 32 : 21;
             int tail = r[0] == 40 ? 33 : 22;
             Due.put(x, head * 64 + 40, 8, r[1]);
@@ -267,16 +236,16 @@ public final class MountTest {
             Due.seal(x, head, tail);
             dueFault("5: LENGTH " + r[1], x, r[2], r[0] / 4, r[0] % 4);
         }
-        BitmapVolume x = base();
+        BitmapVolume x = Due.base();
         x.spoil(32, 33, 3);
         Due.seal(x, 32, 33);
         dueFault("5: ONE RUN of none", x, 5, 10, 0);
-        x = base();
+        x = Due.base();
         Due.put(x, 29 * 64 + 40, 8, 100);
         Due.put(x, 29 * 64 + 56, 8, 100);
         Due.seal(x, 29, 34);
         dueFault("5: LENGTH of a DIRECTORY", x, 5, 8, 2);
-        x = base();
+        x = Due.base();
         x.spoil(32, 4, 16);
         Due.seal(x, 32, 33);
         dueFault("5: a DIRECTORY of none", x, 5, 10, 0);
@@ -284,27 +253,27 @@ public final class MountTest {
     }
 
     private static void placesOfSets() {
-        BitmapVolume x = base();
+        BitmapVolume x = Due.base();
         x.spoil(33, 32, 133);
         dueFault("5: at an odd place", x, 5, 10, 3);
         dueMend("9: it goes alone", x, 1);
         Due.due("9: 128 off", x.octet(33, 32), 5);
-        x = base();
+        x = Due.base();
         x.spoil(33, 32, 128);
         dueFault("5: TYPE 128", x, 5, 10, 3);
         dueMend("9: it goes alone", x, 1);
         Due.due("9: of 128 itself 1", x.octet(33, 32), 1);
-        x = base();
+        x = Due.base();
         x.spoil(35, 32, 1);
         dueFault("5: behind a TYPE 0", x, 5, 11, 3);
         dueMend("9: one ENTRY", x, 1);
         Due.due("9: it is 0", x.octet(35, 32), 0);
-        x = base();
+        x = Due.base();
         x.spoil(32, 0, 0);
         dueFault("5: a SET behind a TYPE 0", x, 5, 10, 1);
         dueMend("9: STREAM and NAME", x, 2);
         Due.due("9: they are 0", x.octet(32, 32) + x.octet(33, 0), 0);
-        x = base();
+        x = Due.base();
         x.spoil(35, 32, 127);
         x.spoil(35, 0, 5);
         x.spoil(34, 32, 127);
@@ -312,29 +281,29 @@ public final class MountTest {
     }
 
     private static void clusterFaults() {
-        BitmapVolume x = base();
+        BitmapVolume x = Due.base();
         Due.put(x, 21 * 64 + 52, 4, 21);
         Due.seal(x, 21, 22);
         dueFault("6: ONE RUN behind N + 1", x, 6, 4, 2);
         dueMend("9: the SET and the BITMAP", x, 2);
         int[][] ends = {{0, 1}, {1, 1}, {22, 1}, {5, 1}};
         for (int[] e : ends) {
-            x = base();
+            x = Due.base();
             chainOfA(x, e[0]);
             dueFault("6: no END but " + e[0], x, 6, 4, 2);
             dueMend("9: END", x, e[1]);
             Due.due("9: FAT 7", Due.fat(x, 7), -1);
             Due.due("9: a is there", Due.clusters(x, 18), "6 7");
         }
-        x = base();
+        x = Due.base();
         chainOfA(x, -1);
         Due.due("6: a chain", x.mount(), 1);
-        x = base();
+        x = Due.base();
         chainOfA(x, -1);
         Due.setFat(x, 6, END);
         dueFault("6: END too early", x, 6, 4, 2);
         dueMend("9: the SET and the BITMAP", x, 2);
-        x = base();
+        x = Due.base();
         chainOfA(x, -1);
         Due.setFat(x, 6, 6);
         dueFault("6: in a ring", x, 6, 4, 2);
@@ -352,21 +321,21 @@ public final class MountTest {
     private static void doubles() {
         int[][] rows = {{2, 1}, {3, 1}, {4, 1}, {11, 1}, {6, 1}, {7, 1}};
         for (int[] r : rows) {
-            BitmapVolume x = base();
+            BitmapVolume x = Due.base();
             Due.put(x, 23 * 64 + 52, 4, r[0]);
             Due.seal(x, 23, 28);
             dueFault("7: b at " + r[0], x, 7, 5, 2);
             dueMend("9: the SET and the BITMAP", x, 2);
             Due.due("9: b went", Due.look(x, 0, "b"), BitmapVolume.NONE);
         }
-        BitmapVolume x = base();
+        BitmapVolume x = Due.base();
         x.spoil(28, 2, 65);
         Due.put(x, 23 * 64 + 36, 2, 32768 + 32);
         Due.seal(x, 23, 28);
         dueFault("8: A is LIKE a", x, 8, 5, 2);
         dueMend("9: the SET and the BITMAP", x, 2);
         Due.due("9: a stays", Due.look(x, 0, "A"), 18);
-        x = base();
+        x = Due.base();
         x.spoil(33, 2, 97);
         Due.put(x, 32 * 64 + 36, 2, 32768 + 32);
         Due.seal(x, 32, 33);
@@ -374,7 +343,7 @@ public final class MountTest {
     }
 
     private static void endlessAndDouble() {
-        BitmapVolume x = base();
+        BitmapVolume x = Due.base();
         x.spoil(23, 33, 1);
         Due.put(x, 23 * 64 + 52, 4, 7);
         Due.seal(x, 23, 28);
@@ -384,17 +353,17 @@ public final class MountTest {
     }
 
     private static void orderOfDirectories() {
-        BitmapVolume x = base();
+        BitmapVolume x = Due.base();
         x.spoil(32, 8, 9);
         x.spoil(21, 33, 1);
         Due.seal(x, 21, 22);
         dueFault("6 in ROOT is before 5 in d", x, 6, 4, 2);
-        x = base();
+        x = Due.base();
         x.spoil(16, 1, 0);
         x.spoil(32, 8, 9);
         dueFault("5 is before 9", x, 5, 10, 0);
         dueMend("9: three ENTRIES and the BITMAP", x, 4);
-        x = base();
+        x = Due.base();
         x.spoil(29, 8, 9);
         x.mend();
         x.mount();
@@ -405,19 +374,19 @@ public final class MountTest {
     private static void bits() {
         int[][] rows = {{0, 254}, {0, 251}, {1, 0}, {1, 255}, {2, 1}, {2, 16}, {2, 128}};
         for (int[] r : rows) {
-            BitmapVolume x = base();
+            BitmapVolume x = Due.base();
             x.spoil(16, r[0], r[1]);
             dueFault("9: OCTET " + r[0] + " is " + r[1], x, 9, 0, 0);
             dueMend("9: the BITMAP", x, 1);
             Due.due("9: it is", x.octet(16, 0) * 1000000 + x.octet(16, 1) * 1000 + x.octet(16, 2), 255003000);
         }
-        BitmapVolume x = base();
+        BitmapVolume x = Due.base();
         x.spoil(16, 3, 1);
         Due.due("6: behind the BITMAP", x.mount(), 1);
     }
 
     private static void faultStays() {
-        BitmapVolume x = base();
+        BitmapVolume x = Due.base();
         Due.due("7: none yet", x.fault(0), 0);
         Due.due("7: fault(-1)", x.fault(-1), BitmapVolume.BAD);
         Due.due("7: fault(3)", x.fault(3), BitmapVolume.BAD);
@@ -430,7 +399,7 @@ public final class MountTest {
     }
 
     private static void unmounting() {
-        BitmapVolume x = base();
+        BitmapVolume x = Due.base();
         Due.due("8: not mounted", x.unmount(), BitmapVolume.STATE);
         Due.due("8: DIRTY is 0", x.octet(0, 44), 0);
         Due.due("8: PERCENT", x.octet(0, 49), 50);
@@ -458,7 +427,7 @@ public final class MountTest {
     }
 
     private static BitmapVolume broken() {
-        BitmapVolume x = base();
+        BitmapVolume x = Due.base();
         chainOfA(x, 0);
         x.spoil(32, 8, 9);
         x.spoil(35, 32, 1);
@@ -476,7 +445,7 @@ public final class MountTest {
     }
 
     private static void secondAndFault() {
-        BitmapVolume x = base();
+        BitmapVolume x = Due.base();
         x.spoil(0, 5, 1);
         Due.setFat(x, 0, 1);
         int written = x.count(4);
