@@ -1,10 +1,10 @@
 /** Promises 1 to 5: a new object, format, octet, spoil, fail. */
 public final class DiskTest {
     private static void newObject() {
-        BitmapVolume x = new BitmapVolume();
         int sum = 0;
-        for (int s = 0; s < 216; s++) for (int i = 0; i < 64; i++) sum += x.octet(s, i);
+        for (int v : Due.disk(BitmapVolume::new, y -> 0)) sum += v;
         Due.due("1: OCTETS of a new disk", sum, 0);
+        BitmapVolume x = new BitmapVolume();
         Due.due("1: count(5)", x.count(5), 0);
         Due.due("1: count(4)", x.count(4), 0);
         Due.due("1: clear()", x.clear(), 0);
@@ -36,9 +36,14 @@ public final class DiskTest {
         return b;
     }
 
-    private static void formatLaysAll(int n, int serial) {
+    private static BitmapVolume spoiled() {
         BitmapVolume x = new BitmapVolume();
         for (int s = 0; s < 216; s += 5) x.spoil(s, s % 64, 77);
+        return x;
+    }
+
+    private static void formatLaysAll(int n, int serial) {
+        BitmapVolume x = spoiled();
         Due.due("2: format(" + n + ")", x.format(n, serial), 16 + 2 * n);
         int[] d = new int[216 * 64];
         System.arraycopy(boot(n, serial & 4294967295L), 0, d, 0, 256);
@@ -70,8 +75,9 @@ public final class DiskTest {
         for (int i = 0; i < 4; i++) d[1316 + i] = (int) (sum >> 8 * i & 255);
         d[1332] = 3;
         d[1336] = 128;
+        int[] laid = Due.disk(DiskTest::spoiled, y -> y.format(n, serial));
         for (int a = 0; a < d.length; a++) {
-            if (Due.at(x, a) != d[a]) Due.due("2: format(" + n + "): OCTET " + a, Due.at(x, a), d[a]);
+            if (laid[a] != d[a]) Due.due("2: format(" + n + "): OCTET " + a, laid[a], d[a]);
         }
         Due.due("2: mount()", x.mount(), 1);
         Due.due("2: count(0)", x.count(0), n);

@@ -96,7 +96,7 @@ final class Due {
 
     static String clusters(BitmapVolume x, int place) {
         StringBuilder b = new StringBuilder();
-        for (int i = 0; x.cluster(place, i) >= 0; i++) b.append(i == 0 ? "" : " ").append(x.cluster(place, i));
+        for (int i = 0; i < 200 && x.cluster(place, i) >= 0; i++) b.append(i == 0 ? "" : " ").append(x.cluster(place, i));
         return b.toString();
     }
 
@@ -155,7 +155,7 @@ final class Due {
     }
 
     /** How many OCTETS are read from one object: behind its 512th call its answers are free. */
-    private static final int SLICE = 384;
+    private static final int SLICE = 216;
 
     /** The whole disk behind an act, read from so many objects made alike that none is used for too many calls. */
     static int[] disk(Setup setup, Act act) {
@@ -192,7 +192,9 @@ final class Due {
                 return act.on(x);
             };
             int[] after = disk(setup, failing);
-            order.append(m > 1 ? " " : "").append(changed(before, after));
+            String sectors = changed(before, after);
+            if (m > 1) order.append(' ').append(sectors.isEmpty() ? "one that was so" : sectors);
+            else due(what + ", power fails at 1: SECTORS", sectors, "");
             before = after;
             BitmapVolume x = setup.make();
             int written = x.count(4);

@@ -145,6 +145,16 @@ final class Edge {
         return x;
     }
 
+    /** Edge.some(), but the BITMAP is CLUSTER 21: free are 2, and 12 to 20. */
+    static BitmapVolume bitmapLast() {
+        BitmapVolume x = Due.base();
+        x.spoil(20, 20, 21);
+        Due.setFat(x, 21, END);
+        Due.put(x, Due.address(84), 3, 0x0803FE);
+        x.mount();
+        return x;
+    }
+
     static BitmapVolume barred(BitmapVolume x, int place) {
         x.bar(place, true);
         return again(x);

@@ -54,6 +54,23 @@ public final class EdgesOfActsTest {
         Edge.dueOrder("a file, and d has room", () -> leftWithRoom(0), y -> Due.file(y, 34, "e"), "0 32 33");
     }
 
+    /** A DIRECTORY went: what comes next takes its CLUSTER (12), whatever call it is. */
+    private static void takesAgain() {
+        make("the DIRECTORY's CLUSTER first, then, if it has to, that in which it is takes one.");
+        Due.Act[] acts = {x -> Due.dir(x, 0, "f"), x -> x.write(40, 0, 1, 1), x -> Due.move(x, 18, 34, "f"), x -> Due.file(x, 34, "f")};
+        int[] holders = {46, 40, 34, 34};
+        int[] which = {0, 0, 1, 1};
+        for (int i = 0; i < acts.length; i++) {
+            BitmapVolume x = Edge.some();
+            int e = Due.dir(x, 0, "e");
+            Edge.due("e", x.told(e, 2), 12);
+            x.drop(e);
+            Edge.due("act " + i, acts[i].on(x) > 0 ? 1 : 0, 1);
+            Edge.due("act " + i + " takes 12", x.cluster(holders[i], which[i]), 12);
+            Edge.dueRight("act " + i, x);
+        }
+    }
+
     private static void makeFull() {
         make("FULL (nothing is taken)");
         Edge.refusedWith("e", "a file in ROOT, none is free", () -> left(0), x -> x.make(0, false), Edge.FULL);
@@ -168,6 +185,13 @@ public final class EdgesOfActsTest {
         Edge.refused("write: BAD before FULL", Edge::full, x -> x.write(18, 1537, 1, 1), Edge.BAD);
         Edge.refused("write: FULL before OFF", () -> Edge.fails(Edge.full(), 1), x -> x.write(18, 1536, 1, 1), Edge.FULL);
         Edge.due("write: OFF", Edge.fails(Edge.some(), 1).write(18, 0, 1, 9), Edge.OFF);
+    }
+
+    private static void writePhases() {
+        write("PHASES D F T B E");
+        Edge.dueOrder("all of them", Edge::some, x -> x.write(18, 200, 312, 9), "0 27 36 37 38 39 8 8 16 21");
+        Edge.dueOrder("an empty file", Edge::some, x -> x.write(40, 0, 65, 9), "0 36 37 16 32");
+        Edge.dueOrder("within", Edge::some, x -> x.write(18, 0, 64, 9), "0 24");
     }
 
     // ---- promise 17
@@ -305,12 +329,22 @@ public final class EdgesOfActsTest {
         e = Due.look(x, 34, "a");
         Edge.due("STREAM", x.told(e, 1) * 100 + x.cluster(e, 10), 130020);
         Edge.due("times", x.told(e, 7) * 10 + x.told(e, 8), 2);
+        x = Due.mounted(20);
+        x.clock(-9);
+        Due.file(x, 0, "a");
+        x.clock(8);
+        x.write(18, 0, 1, 1);
+        x.clock(7);
+        e = Due.move(x, 18, 0, "b");
+        Edge.due("times, made and changed", x.told(e, 7) * 10 + x.told(e, 8), -82);
         x = Edge.some();
         e = Due.move(x, 40, 34, "c");
         Edge.due("its own ENTRIES are not free yet", e, 4 * x.cluster(34, 1));
         Edge.due("then they are", Due.move(x, e, 34, "c"), 40);
         Edge.due("and again", Due.move(x, 40, 34, "C"), e);
-        Edge.dueOrder("PHASES", Edge::some, y -> Due.move(y, 18, 34, "e"), "0 8 8 16 29 33 36 37 21 22");
+        move("PHASES D F T B E, then E again for the old one.");
+        Edge.dueOrder("d takes one", Edge::some, y -> Due.move(y, 18, 34, "e"), "0 8 8 16 29 33 36 37 21 22");
+        Edge.dueOrder("d has room", () -> leftWithRoom(0), y -> Due.move(y, 18, 34, "e"), "0 32 33 21 22");
         x = Edge.fails(Edge.some(), 9);
         Edge.due("power fails between both", Due.move(x, 18, 34, "e"), Edge.OFF);
         Edge.due("both are there", x.octet(21, 0) * 1000 + x.octet(36, 0), 133133);
@@ -406,6 +440,27 @@ public final class EdgesOfActsTest {
         Edge.due("then it can be written", x.write(18, 0, 1, 1), 200);
     }
 
+    // ---- THE DRAFT
+
+    private static void dueDraft(String what, Due.Setup setup, Due.Act act, int left) {
+        BitmapVolume x = Due.say(setup.make(), "qq");
+        long answer = act.on(x);
+        Edge.due(what + " answers " + answer + ": THE DRAFT has", x.clear(), left);
+    }
+
+    private static void draft() {
+        Edge.by("4 CALLS", "A refused call changes nothing, but that THE DRAFT is empty behind each call that takes it.");
+        Due.Act[] takes = {x -> x.look(0), x -> x.look(1), x -> x.make(0, false), x -> x.make(1, true), x -> x.move(18, 0), x -> x.move(0, 0), x -> x.clear()};
+        Due.Act[] leaves = {x -> x.format(1, 1), x -> x.octet(-1, 0), x -> x.spoil(0, 0, -1), x -> x.fail(-1), x -> x.mount(), x -> x.fault(9), x -> x.unmount(),
+            x -> x.mend(), x -> x.letters(0), x -> x.list(0, 0), x -> x.list(1, 0), x -> x.write(18, 0, 1, 1), x -> x.write(0, 0, 1, 1),
+            x -> x.cut(18, 0), x -> x.cut(0, 0), x -> x.drop(18), x -> x.drop(0), x -> x.bar(18, true), x -> x.bar(0, true), x -> x.read(18, 0), x -> x.told(18, 0),
+            x -> x.told(1, 0), x -> x.letter(18, 0), x -> x.letter(0, 0), x -> x.cluster(18, 0), x -> x.cluster(1, 0), x -> x.count(0), x -> x.count(9)};
+        for (Due.Setup setup : new Due.Setup[] {Edge::some, Due::base, BitmapVolume::new, Edge::full, () -> Edge.fails(Edge.some(), 1)}) {
+            for (int i = 0; i < takes.length; i++) dueDraft("a call that takes it, " + i, setup, takes[i], 0);
+            for (int i = 0; i < leaves.length; i++) dueDraft("a call that does not, " + i, setup, leaves[i], 2);
+        }
+    }
+
     private static BitmapVolume soiled() {
         BitmapVolume x = Edge.some();
         x.bar(22, false);
@@ -415,11 +470,13 @@ public final class EdgesOfActsTest {
     public static void main(String[] args) {
         makes();
         makeTakes();
+        takesAgain();
         makeFull();
         makeRefused();
         writes();
         writeLength();
         writeRefused();
+        writePhases();
         cuts();
         cutRefused();
         drops();
@@ -428,6 +485,7 @@ public final class EdgesOfActsTest {
         movesDirectories();
         moveRefused();
         bar();
+        draft();
         Due.end();
     }
 }

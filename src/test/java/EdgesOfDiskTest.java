@@ -56,6 +56,7 @@ public final class EdgesOfDiskTest {
             for (int a = 23 * 64; a < fresh.length; a++) taken += fresh[a];
             Edge.due("N " + n + ": behind ROOT's CLUSTER all are 0", taken, 0);
         }
+        Edge.dueOrder("a new DIRECTORY finds 0s", EdgesOfDiskTest::formattedAgain, x -> Due.dir(x, 0, "d"), "0 8 8 16 21 24");
         Edge.by("2 format", "both BOOT REGIONS (PERCENT 255, not DIRTY)");
         BitmapVolume x = Edge.off(soiled());
         x.spoil(0, 44, 2);
@@ -67,6 +68,13 @@ public final class EdgesOfDiskTest {
         int[][] rows = {{16, 48}, {17, 50}, {99, 214}, {100, 216}};
         for (int[] r : rows) Edge.due("N " + r[0], new BitmapVolume().format(r[0], 1), r[1]);
         for (int c = 2; c < 6; c++) Edge.due("FAT " + c, Due.fat(x, c), c < 5 ? -1 : 0);
+    }
+
+    private static BitmapVolume formattedAgain() {
+        BitmapVolume x = Edge.off(soiled());
+        x.format(20, 1);
+        x.mount();
+        return x;
     }
 
     private static BitmapVolume soiled() {

@@ -14,13 +14,13 @@ public final class EdgesOfMountingTest {
     }
 
     /** b: LENGTH, first CLUSTER, ONE RUN or not. */
-    private static BitmapVolume withB(int length, long first, boolean isRun) {
+    private static BitmapVolume withB(long length, long first, boolean isRun) {
         BitmapVolume x = Due.base();
         streamOfB(x, length, first, isRun);
         return x;
     }
 
-    private static void streamOfB(BitmapVolume x, int length, long first, boolean isRun) {
+    private static void streamOfB(BitmapVolume x, long length, long first, boolean isRun) {
         Edge.putLength(x, 23, length);
         Due.put(x, 23 * 64 + 52, 4, first);
         x.spoil(23, 33, isRun ? 3 : 1);
@@ -39,34 +39,42 @@ public final class EdgesOfMountingTest {
 
     // ---- 2 MOUNTING
 
-    private static void firstOfAll() {
-        by("asks, in this order; the first that is not so is the FAULT (1 .. 9), its place is told");
+    /** A volume with all FAULTS from a number on, those of 5 to 8 in the SET of b. */
+    private static BitmapVolume faulty(int from) {
         BitmapVolume x = Due.base();
         x.spoil(16, 1, 131);
-        Edge.dueFault("a bit", x, 9, 0, 0);
-        nameLikeA(x);
-        Edge.dueFault("and a NAME", x, 8, 5, 2);
-        streamOfB(x, 100, 6, true);
-        Edge.dueFault("and a CLUSTER that was met", x, 7, 5, 2);
-        streamOfB(x, 100, 6, false);
-        Edge.dueFault("and no END", x, 6, 5, 2);
-        x.spoil(23, 4, 2);
+        if (from <= 8) x.spoil(28, 2, 'A');
+        if (from <= 8) Due.put(x, 23 * 64 + 36, 2, Due.roll(Due.roll(0, 'A'), 0));
+        if (from <= 7) x.spoil(23, 52, 6);
+        if (from <= 6) x.spoil(23, 33, 1);
+        if (from <= 5) x.spoil(23, 4, 2);
         Due.seal(x, 23, 28);
-        Edge.dueFault("and ATTRIBUTES", x, 5, 5, 2);
-        x.spoil(20, 33, 1);
-        Edge.dueFault("and CASES", x, 4, 4, 1);
-        x.spoil(20, 1, 1);
-        Edge.dueFault("and the BITMAP's ENTRY", x, 4, 4, 0);
-        Due.setFat(x, 11, 0);
-        Edge.dueFault("and ROOT's chain", x, 3, 11, 0);
-        Due.setFat(x, 1, 0);
-        Edge.dueFault("and FAT 1", x, 2, 1, 0);
-        Due.setFat(x, 0, 0);
-        Edge.dueFault("and FAT 0", x, 2, 0, 0);
+        if (from <= 4) x.spoil(20, 1, 1);
+        if (from <= 3) Due.setFat(x, 11, 0);
+        if (from <= 2) Due.setFat(x, 1, 0);
+        if (from <= 1) x.spoil(0, 0, 0);
+        if (from <= 1) x.spoil(4, 0, 0);
+        return x;
+    }
+
+    private static void firstOfAll() {
+        by("asks, in this order; the first that is not so is the FAULT (1 .. 9), its place is told");
+        int[][] places = {{0, 0}, {1, 0}, {11, 0}, {4, 0}, {5, 2}, {5, 2}, {5, 2}, {5, 2}, {0, 0}};
+        for (int number = 1; number <= 9; number++) {
+            int[] place = places[number - 1];
+            Edge.dueFault("all from " + number + " on", faulty(number), number, place[0], place[1]);
+        }
+        BitmapVolume x = faulty(2);
         x.spoil(0, 0, 0);
-        Edge.dueFault("by THE SECOND", x, 2, 0, 0);
-        x.spoil(4, 0, 0);
-        Edge.dueFault("and no BOOT REGION", x, 1, 0, 0);
+        Edge.dueFault("by THE SECOND", x, 2, 1, 0);
+        x = faulty(4);
+        x.spoil(20, 33, 1);
+        Edge.dueFault("BITMAP before CASES", x, 4, 4, 0);
+        x.spoil(20, 1, 0);
+        Edge.dueFault("CASES", x, 4, 4, 1);
+        x = faulty(2);
+        Due.setFat(x, 0, 0);
+        Edge.dueFault("FAT 0 before FAT 1", x, 2, 0, 0);
     }
 
     private static void regions() {
@@ -116,6 +124,16 @@ public final class EdgesOfMountingTest {
         x.spoil(4, 44, 2);
         x.spoil(4, 49, 100);
         Edge.due("it is DIRTY, and PERCENT is 100", x.mount(), 2);
+    }
+
+    private static void fatOfNone() {
+        by("2 FAT 0 and 1.");
+        long[][] rows = {{0, 0}, {0, Edge.END}, {0, Edge.END - 6}, {0, Edge.END - 8}, {1, 0}, {1, Edge.END - 1}, {1, Edge.END - 7}};
+        for (long[] r : rows) {
+            BitmapVolume x = Due.base();
+            Due.setFat(x, (int) r[0], r[1]);
+            Edge.dueFault("FAT " + r[0] + " is " + r[1], x, 2, (int) r[0], 0);
+        }
     }
 
     private static void rootChain() {
@@ -168,12 +186,12 @@ public final class EdgesOfMountingTest {
             Due.setFat(x, 3, v);
             Edge.dueFault("FAT 3 is " + v, x, 4, 4, 1);
         }
-        BitmapVolume x = Due.base();
-        x.spoil(20, 20, 21);
-        Due.setFat(x, 21, Edge.END);
-        Due.put(x, Due.address(84), 3, 0x0803FE);
-        Edge.due("N + 1 may be BITMAP's", x.mount(), 1);
-        Edge.due("ten are free", x.count(1), 10);
+        BitmapVolume x = Edge.bitmapLast();
+        Edge.due("N + 1 may be BITMAP's", x.count(5), 1);
+        Edge.due("ten are free, nine of them in a row", x.count(1) * 10 + x.count(2), 109);
+        Edge.due("2 is the first of them", x.write(40, 0, 128, 1) * 10 + x.cluster(40, 0), 1282);
+        Edge.due("its bit", Due.at(x, Due.address(84)), 255);
+        Edge.dueRight("BITMAP at N + 1", x);
     }
 
     private static void typesOfBase() {
@@ -231,6 +249,9 @@ public final class EdgesOfMountingTest {
         Due.seal(x, 21, 22);
         Edge.dueFault("a is before it, its 6 before b's 5", x, 6, 4, 2);
         x = Due.base();
+        x.spoil(22, 32 + 31, 77);
+        Edge.due("an UNUSED one just ahead of b, with its last OCTET", x.mount(), 1);
+        x = Due.base();
         for (int type : new int[] {1, 5, 64, 65, 127}) {
             x.spoil(34, 32, type);
             x.spoil(35, 0, 128 - type);
@@ -244,7 +265,11 @@ public final class EdgesOfMountingTest {
         by("LENGTH (at most 128 N)");
         int[][] rows = {{2560, 7}, {2561, 5}, {2559, 7}, {2688, 5}};
         for (int[] r : rows) Edge.dueFault("LENGTH " + r[0] + " of N 20", withB(r[0], 2, true), r[1], 5, 2);
-        Edge.dueFault("LENGTH 2^31 - 1", withB(Edge.MOST, 2, true), 5, 5, 2);
+        long[] great = {Edge.MOST, 1L << 31, Edge.END - 126, Edge.END, Long.MAX_VALUE, Long.MIN_VALUE, -1};
+        for (long l : great) {
+            Edge.dueFault("LENGTH " + l, withB(l, 9, true), 5, 5, 2);
+            Edge.dueFault("LENGTH " + l + " of none", withB(l, 0, false), 5, 5, 2);
+        }
         by("the first CLUSTER 2 .. N + 1 (or none)");
         for (long c : new long[] {0, 1, 22, 102, 65536 + 9, Edge.END}) {
             Edge.dueFault("ONE RUN from " + c, withB(100, c, true), 5, 5, 2);
@@ -445,6 +470,12 @@ public final class EdgesOfMountingTest {
 
     private static void unmount() {
         String part = "8 unmount";
+        Edge.by(part, "Not mounted any more: 1.");
+        BitmapVolume once = Edge.some();
+        Edge.due("unmount()", once.unmount(), 1);
+        Edge.due("count(5)", once.count(5), 0);
+        Edge.due("again", once.unmount(), Edge.STATE);
+        Edge.due("it can be mounted", once.mount(), 1);
         Edge.by(part, "STATE; OFF.");
         Edge.refused("a new object", BitmapVolume::new, x -> x.unmount(), Edge.STATE);
         Edge.refused("not mounted", Due::base, x -> x.unmount(), Edge.STATE);
@@ -532,7 +563,7 @@ public final class EdgesOfMountingTest {
 
     private static BitmapVolume lostRegion() {
         BitmapVolume x = Due.base();
-        for (int s = 0; s < 4; s++) x.spoil(s, 5, 1 + s);
+        for (int s = 0; s < 4; s++) x.spoil(s, s % 2 * 63, 1 + s);
         x.spoil(16, 0, 0);
         return x;
     }
@@ -543,6 +574,8 @@ public final class EdgesOfMountingTest {
         BitmapVolume x = lostRegion();
         Edge.due("they do not count", x.mend(), 1);
         Edge.due("PERCENT too", x.octet(0, 49), 255);
+        int[] d = Due.disk(EdgesOfMountingTest::lostRegion, y -> y.mend());
+        for (int i = 0; i < 256; i++) Edge.due("OCTET " + i, d[i], d[256 + i]);
         Edge.dueOrder("those that are not so", () -> {
             BitmapVolume y = Due.base();
             y.spoil(2, 63, 0);
@@ -696,6 +729,7 @@ public final class EdgesOfMountingTest {
         firstOfAll();
         regions();
         secondRegion();
+        fatOfNone();
         rootChain();
         bitmapAndCases();
         typesOfBase();

@@ -41,6 +41,13 @@ public final class EdgesOfNamesTest {
             int due = r[2] == Edge.BAD ? r[0] : r[2];
             Edge.due(what + ": it has", x.clear(), due);
         }
+        for (int i = 0; i < 4; i++) {
+            long least = 1L << 16 * i, greatest = 65535L << 16 * i;
+            Edge.due("the least letter to 30, at " + i, drafted(30).letters(least), Edge.BAD);
+            Edge.due("the greatest letter to 30, at " + i, drafted(30).letters(greatest), Edge.BAD);
+            Edge.due("the least letter to 29, at " + i, drafted(29).letters(least), 30);
+            Edge.due("the greatest letter to 29, at " + i, drafted(29).letters(greatest), 30);
+        }
         BitmapVolume x = drafted(28);
         x.letters(w[3]);
         int a = x.make(0, false);

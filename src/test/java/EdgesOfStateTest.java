@@ -26,6 +26,12 @@ public final class EdgesOfStateTest {
         y.drop(e);
         y.drop(34);
         Edge.due("in a DIRECTORY that went", y.told(e, 0), Edge.BAD);
+        y = Edge.some();
+        y.drop(40);
+        y.drop(34);
+        y.write(22, 100, 28 + 128, 105);
+        Edge.due("b has the CLUSTER of a DIRECTORY that went", Due.clusters(y, 22) + "," + y.octet(32, 0), "9 10,133");
+        Edge.due("an OCTET of b in it is no place", y.told(40, 0), Edge.BAD);
         Edge.due("the greatest CLUSTER's ENTRY 3", Due.mounted(100).told(4 * 101 + 3, 0), Edge.BAD);
         Edge.due("a CLUSTER less than 2", Due.mounted(100).told(7, 0), Edge.BAD);
     }
@@ -170,6 +176,11 @@ public final class EdgesOfStateTest {
         dueCounts("the longest is the last", x, 20, 13, 10);
         x.write(40, 0, 1024, 0);
         dueCounts("rows of two, one, two", x, 20, 5, 2);
+        x = Edge.bitmapLast();
+        x.write(40, 0, 1024, 0);
+        dueCounts("CLUSTERS 2 and 20", x, 20, 2, 1);
+        x.write(40, 1024, 128, 0);
+        dueCounts("CLUSTER 2 alone", x, 20, 1, 1);
         x = Due.mounted(16);
         int a = Due.file(x, 0, "a");
         x.write(a, 0, 1024, 0);

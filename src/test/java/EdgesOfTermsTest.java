@@ -85,7 +85,7 @@ public final class EdgesOfTermsTest {
             BitmapVolume x = Due.mounted(n);
             int a = Due.file(x, 0, "a");
             int length = 0;
-            while (length < 128 * (n - 4)) length = x.write(a, length, Math.min(1024, 128 * (n - 4) - length), length);
+            for (int i = 0; i < 12 && length < 128 * (n - 4); i++) length = x.write(a, length, Math.min(1024, 128 * (n - 4) - length), length);
             Edge.due("N " + n + ": all that are free", length, 128 * (n - 4));
             Edge.due("N " + n + ": the last one is N + 1", x.cluster(a, n - 5), n + 1);
             Edge.due("N " + n + ": none is behind it", x.cluster(a, n - 4), Edge.NONE);
@@ -107,20 +107,28 @@ public final class EdgesOfTermsTest {
     // ---- BOOT REGION
 
     private static void bootOctets() {
+        by("Its second and third: 62 u1 85, 63 u1 170; the others are 0.");
+        for (int i = 64; i < 192; i++) dueOctet(i);
         by("16 u4 how many SECTORS the volume has (16 + 2 N), 20 u4 8, 24 u4 7, 28 u4 16, 32 u4 N, 36 u4 the first CLUSTER of ROOT, 40 u4 the SERIAL, 44 u2 FLAGS");
-        for (int i = 0; i < 192; i++) {
-            BitmapVolume x = Due.base();
-            Due.put(x, i, 1, Due.at(x, i) ^ 128);
-            Edge.resum(x);
-            boolean isSerial = i >= 40 && i < 44;
-            Edge.due("OCTET " + i + " is another, THE SUM is right", x.mount(), isSerial ? 1 : 2);
-        }
+        for (int i = 16; i < 44; i++) dueOctet(i);
+        by("0 u1 235, 1 u1 118, 2 u1 144, 3 the eight OCTETS 69 88 70 65 84 32 32 32");
+        for (int i = 0; i < 16; i++) dueOctet(i);
+        by("62 u1 85, 63 u1 170; the others are 0. Its second");
+        for (int i = 44; i < 64; i++) dueOctet(i);
         by("Its fourth: 16 times u4 THE SUM of the three");
         for (int i = 0; i < 64; i++) {
             BitmapVolume x = Due.base();
             x.spoil(3, i, x.octet(3, i) ^ 1);
             Edge.due("OCTET " + i + " is another", x.mount(), 2);
         }
+    }
+
+    /** An OCTET of the first region becomes another, THE SUM is right then: no region is right so, but for another SERIAL. */
+    private static void dueOctet(int i) {
+        BitmapVolume x = Due.base();
+        Due.put(x, i, 1, Due.at(x, i) ^ 128);
+        Edge.resum(x);
+        Edge.due("OCTET " + i + " is another", x.mount(), i >= 40 && i < 44 ? 1 : 2);
     }
 
     private static void flags() {
@@ -193,6 +201,8 @@ public final class EdgesOfTermsTest {
             Edge.dueFault(v + " is no END", x, 3, 11, 0);
         }
         by("0: 4294967288, 1: 4294967295");
+        Edge.due("of 0", Due.fat(Due.base(), 0), -8);
+        Edge.due("of 1", Due.fat(Due.base(), 1), -1);
         for (int i = 0; i < 8; i++) {
             BitmapVolume x = Due.base();
             x.spoil(8, i, x.octet(8, i) ^ 1);
@@ -233,6 +243,7 @@ public final class EdgesOfTermsTest {
         int d = Due.dir(x, 0, "d");
         int a = Due.file(x, d, "a".repeat(16));
         Edge.due("four ENTRIES fill its CLUSTER", a - 4 * x.cluster(d, 0) + x.told(d, 1), 128);
+        Edge.dueRight("a SET that ends with its DIRECTORY", x);
         int b = Due.file(x, d, "b");
         Edge.due("three more lie in the next one", b - 4 * x.cluster(d, 1) + x.told(d, 1), 256);
         Edge.due("its ENTRY 3 is no place", x.told(b + 3, 0), Edge.BAD);
@@ -335,7 +346,8 @@ public final class EdgesOfTermsTest {
         }
         BitmapVolume x = Due.withCases(65535, 97);
         x.spoil(18, 4, 77);
-        Edge.due("an OCTET behind the table does not count", x.mount(), 1);
+        x.spoil(17, 63, 77);
+        Edge.due("OCTETS ahead of the table and behind it do not count", x.mount(), 1);
     }
 
     private static BitmapVolume mountedWith(int... table) {
@@ -363,6 +375,10 @@ public final class EdgesOfTermsTest {
         int b = Due.file(x, 0, "b");
         Edge.due("the first behind it", Due.look(x, 0, "B"), Edge.NONE);
         Edge.due("its HASH", x.told(b, 5), Due.roll(Due.roll(0, 98), 0));
+        x = mountedWith(97);
+        x.unmount();
+        x.format(20, 1);
+        Edge.due("no letter of a table that was before stays", x.mount(), 1);
         int c = Due.file(x, 0, "\u00ff");
         Edge.due("the last of all", x.told(c, 5), Due.roll(Due.roll(0, 255), 0));
     }
@@ -413,6 +429,40 @@ public final class EdgesOfTermsTest {
         }
     }
 
+    private static void typesOfSets() {
+        int[][] heads = {{0, 128}, {0, 132}, {0, 134}, {0, 192}, {0, 255}, {32, 0}, {32, 64}, {32, 128}, {32, 133}, {32, 191}, {32, 193}};
+        for (int[] h : heads) {
+            by(h[0] == 0 ? "FILE (133)" : "STREAM (192)");
+            BitmapVolume x = Due.base();
+            x.spoil(21, h[0], h[1]);
+            Due.seal(x, 21, 22);
+            Edge.dueFault("TYPE " + h[1], x, 5, 4, 2);
+        }
+        by("NAME (193)");
+        for (int type : new int[] {0, 65, 128, 192, 194, 255}) {
+            BitmapVolume x = Due.base();
+            x.spoil(22, 0, type);
+            Due.seal(x, 21, 22);
+            Edge.dueFault("TYPE " + type, x, 5, 4, 2);
+        }
+    }
+
+    /** UNUSED ENTRIES whose OCTETS are 77: what is laid over them is right. */
+    private static void laidOver() {
+        by("What is not named in an ENTRY is 0.");
+        for (int letters : new int[] {1, 15, 16, 30}) {
+            BitmapVolume x = Due.mounted(16);
+            x.drop(Due.file(x, 0, "a".repeat(30)));
+            x.unmount();
+            for (int i = 0; i < 128; i++) if (i % 32 != 0) Due.put(x, 21 * 64 + i, 1, 77);
+            x.mount();
+            Edge.due(letters + " letters", Due.file(x, 0, "n".repeat(letters)), 18);
+            Edge.dueRight(letters + " letters", x);
+            Edge.due(letters + " letters: FILE's OCTET 31, STREAM's 2", x.octet(21, 31) + x.octet(21, 34), 0);
+            Edge.due(letters + " letters: an ENTRY that stays UNUSED", x.octet(22, 34), letters > 15 ? 'n' : 77);
+        }
+    }
+
     private static void attributes() {
         by("4 u2 ATTRIBUTES (1 read only, 16 a DIRECTORY; others 0)");
         for (int bit = 0; bit < 16; bit++) {
@@ -445,6 +495,13 @@ public final class EdgesOfTermsTest {
         for (int i = 0; i < 8; i++) {
             BitmapVolume x = Due.base();
             x.spoil(21, 40 + i, x.octet(21, 40 + i) ^ 1);
+            Due.seal(x, 21, 22);
+            Edge.dueFault("OCTET " + i + " is another", x, 5, 4, 2);
+        }
+        by("24 u8 LENGTH.");
+        for (int i = 0; i < 8; i++) {
+            BitmapVolume x = Due.base();
+            x.spoil(21, 56 + i, x.octet(21, 56 + i) ^ 1);
             Due.seal(x, 21, 22);
             Edge.dueFault("OCTET " + i + " is another", x, 5, 4, 2);
         }
@@ -722,6 +779,8 @@ public final class EdgesOfTermsTest {
         tableRuns();
         tableRight();
         following();
+        typesOfSets();
+        laidOver();
         attributes();
         streams();
         setInTwo();

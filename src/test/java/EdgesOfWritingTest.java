@@ -11,6 +11,17 @@ public final class EdgesOfWritingTest {
         Edge.due("c", Due.clusters(Edge.downward(), 40), "12 6");
         Edge.dueOrder("rising numbers", Edge::downward, x -> x.write(40, 0, 256, 77), "24 25 36 37");
         Edge.dueOrder("one SECTOR of four", Edge::downward, x -> x.write(40, 64, 1, 77), "37");
+        Edge.dueOrder("the second SECTOR alone, the first one is so", () -> {
+            BitmapVolume x = Edge.downward();
+            x.write(40, 64, 1, 77);
+            return x;
+        }, x -> x.write(40, 0, 65, 1), "37");
+        Edge.dueOrder("the last SECTOR of all", () -> {
+            BitmapVolume x = Due.mounted(100);
+            Due.file(x, 0, "a");
+            for (int i = 0; i < 12; i++) x.write(18, 1024 * i, 1024, 0);
+            return x;
+        }, x -> x.write(18, 12160, 128, 99), "214 215");
         Edge.dueOrder("none: all is so", Edge::downward, x -> x.write(40, 0, 10, 1), "");
         Edge.dueOrder("the time alone", Edge::downward, x -> {
             x.clock(1);
@@ -83,6 +94,10 @@ public final class EdgesOfWritingTest {
         x = Edge.fails(Edge.some(), 9);
         Edge.due("power fails behind the second", grow.on(x), Edge.OFF);
         Edge.due("FAT 6, 7, 12, 13", fats(x, 6, 7, 12, 13), "7 12 13 -1");
+        x = staleFat();
+        x.fail(8);
+        Edge.due("FAT of a ONE RUN is what it was: power fails between", grow.on(x), Edge.OFF);
+        Edge.due("FAT 6, 7, 12, 13", fats(x, 6, 7, 12, 13), "7 20 13 -1");
         x = Edge.fails(chained(), 6);
         Edge.due("a chain: power fails between", x.write(18, 512, 256, 9), Edge.OFF);
         Edge.due("FAT 12, 13, 14, 15", fats(x, 12, 13, 14, 15), "13 -1 15 -1");
@@ -93,6 +108,16 @@ public final class EdgesOfWritingTest {
             return y;
         }, y -> y.write(40, 128, 128, 9), "38 39 16 32");
         Edge.dueOrder("ROOT", () -> Due.mounted(20), y -> Due.file(y, 0, "a"), "0 8 8 16 21 22");
+    }
+
+    /** FAT of a ONE RUN is not looked at: here it is not 0. */
+    private static BitmapVolume staleFat() {
+        BitmapVolume x = Due.base();
+        Due.setFat(x, 6, 19);
+        Due.setFat(x, 7, 20);
+        Due.setFat(x, 12, 21);
+        x.mount();
+        return x;
     }
 
     /** a is a chain 6 7 12 13. */
@@ -179,7 +204,10 @@ public final class EdgesOfWritingTest {
     private static void goesOn() {
         by("If it is ONE RUN, and the k behind its last one are free: these; it stays so.");
         dueTaken("three", wrote(Q, 128, 384), Q, "14 15 16 17", 1);
-        Edge.due("FAT of ONE RUN is not written", fats(wrote(Q, 128, 384), 14, 15, 16, 17), "0 0 0 0");
+        by("(ROOT is never ONE RUN. FAT of ONE RUN is not written.)");
+        Edge.due("FAT of ONE RUN", fats(wrote(Q, 128, 384), 14, 15, 16, 17), "0 0 0 0");
+        Edge.due("FAT of ROOT, in a row", fats(rows(), 4, 5, 6, 7, 8, 9, 10, 11), "5 6 7 8 9 10 11 -1");
+        Edge.due("ROOT, in a row", rows().told(0, 3), 0);
         by("Else the first k free ones by number; if it was ONE RUN its CLUSTERS get a chain first (that and the new ones: FAT; it is ONE RUN no more); a chain goes on with them, the last is END.");
         BitmapVolume x = wrote(Q, 128, 385);
         Edge.due("four: FAT", fats(x, 14, 12, 13, 15, 16), "12 13 15 16 -1");
@@ -194,6 +222,29 @@ public final class EdgesOfWritingTest {
         x.write(V, 0, 128, 1);
         x.write(V, 128, 256, 1);
         dueTaken("of the two behind it one is taken", x, V, "12 13 15", 0);
+    }
+
+    /** d at 5, then 5 6, and 7 is free or not. */
+    private static void directoryGoesOn() {
+        by("If it is ONE RUN, and the k behind its last one are free: these; it stays so.");
+        BitmapVolume x = Due.mounted(20);
+        int a = Due.file(x, 0, "a");
+        x.drop(a);
+        int d = Due.dir(x, 0, "d");
+        for (int i = 0; i < 3; i++) Due.file(x, d, "" + i);
+        dueTaken("a DIRECTORY", x, d, "6 7 8", 1);
+        Edge.due("its FAT", fats(x, 6, 7, 8), "0 0 0");
+        Edge.due("its LENGTH", x.told(d, 1), 384);
+        by("if it was ONE RUN its CLUSTERS get a chain first (that and the new ones: FAT; it is ONE RUN no more)");
+        int b = Due.look(x, d, "2");
+        x.write(b, 0, 1, 0);
+        Due.file(x, d, "3");
+        dueTaken("a DIRECTORY", x, d, "6 7 8 10", 0);
+        Edge.due("its FAT", fats(x, 6, 7, 8, 10), "7 8 10 -1");
+        by("Else the first k free ones by number");
+        x = Edge.bitmapLast();
+        x.write(22, 100, 100, 1);
+        dueTaken("2 is the first of all", x, 22, "9 2", 0);
     }
 
     private static void toTheEnd() {
@@ -278,6 +329,10 @@ public final class EdgesOfWritingTest {
         Edge.due("four: an ENTRY of TYPE 1 stands behind the three", Due.file(x, d, "h".repeat(16)), 4 * x.cluster(d, 1));
         Edge.due("no CLUSTER came", x.told(d, 1), 384);
         Edge.dueRight("four", x);
+        x = gap("f");
+        Due.file(x, d, "h".repeat(30));
+        Edge.due("four, of thirty letters: what is behind it stays", Due.look(x, d, "g"), 4 * x.cluster(d, 2));
+        Edge.dueRight("four, of thirty letters", x);
         x = gap("f".repeat(30));
         Edge.due("three of four", Due.file(x, d, "h"), 4 * x.cluster(d, 1));
         Edge.due("the fourth stays UNUSED", Due.at(x, Due.address(4 * x.cluster(d, 1) + 3)), 65);
@@ -372,6 +427,7 @@ public final class EdgesOfWritingTest {
         failing();
         takesRow();
         goesOn();
+        directoryGoesOn();
         toTheEnd();
         fewer();
         frees();

@@ -56,29 +56,19 @@ public final class MountTest {
         Due.due("9: mend() without one", x.mend(), -11);
     }
 
-    /** One number of the first region becomes another, its SUM is right then; THE SECOND is not. */
-    private static void numbersOfBoot() {
-        int[][] rows = {{32, 15, -11}, {32, 101, -11}, {32, 0, -11}, {36, 1, -11}, {36, 0, -11}, {36, 22, -11}, {36, 102, -11},
-            {36, 21, -13}, {16, 58, -11}, {40, 99, 1}};
-        for (int[] r : rows) {
-            BitmapVolume x = Due.base();
-            x.spoil(4, 0, 0);
-            x.spoil(0, r[0], r[1]);
-            if (r[0] == 32) x.spoil(0, 16, 16 + 2 * r[1]);
-            long sum = 0;
-            for (int i = 0; i < 192; i++) if (i != 44 && i != 45 && i != 49) sum = Due.roll32(sum, Due.at(x, i));
-            for (int i = 0; i < 64; i += 4) Due.put(x, 192 + i, 4, sum);
-            Due.due("1: OCTET " + r[0] + " is " + r[1], x.mount(), r[2]);
-        }
-    }
-
+    /** All OCTETS of each SECTOR in turn are others, one of the other three too. */
     private static void wholeRegion() {
-        BitmapVolume x = Due.base();
-        for (int s = 0; s < 4; s++) for (int i = 0; i < 64; i++) x.spoil(s, i, 255 - x.octet(s, i));
-        Due.due("9: a region that is gone", x.mend(), 0);
-        int differ = 0;
-        for (int i = 0; i < 256; i++) if (Due.at(x, i) != Due.at(x, 256 + i)) differ++;
-        Due.due("9: it is THE SECOND's", differ, 0);
+        for (int s = 0; s < 4; s++) {
+            int sector = s;
+            int[] d = Due.disk(Due::base, x -> {
+                for (int i = 0; i < 64; i++) x.spoil(sector, i, 255 - x.octet(sector, i));
+                x.spoil(3 - sector, 5, 77);
+                return x.mend();
+            });
+            int differ = 0;
+            for (int i = 0; i < 256; i++) if (d[i] != d[256 + i]) differ++;
+            Due.due("9: SECTOR " + s + " was gone, the region is THE SECOND's", differ, 0);
+        }
     }
 
     private static void mountedBySecond() {
@@ -144,38 +134,6 @@ public final class MountTest {
         BitmapVolume x = Due.base();
         x.spoil(18, 5, 200);
         dueFault("4: CASES' SUM", x, 4, 4, 1);
-    }
-
-    private static void tables() {
-        Due.due("4: the least table", Due.withCases(0).mount(), 1);
-        Due.due("4: none", Due.withCases().mount(), -14);
-        Due.due("4: 65 OCTETS too many", Due.withCases(new int[65]).mount(), -14);
-        Due.due("4: all are 0's", Due.withCases(new int[64]).mount(), 1);
-        Due.due("4: 256 letters", Due.withCases(65535, 255, 255).mount(), 1);
-        Due.due("4: 257 letters", Due.withCases(65535, 256, 255).mount(), -14);
-        Due.due("4: 256 and no more", Due.withCases(65535, 256, 65535, 0).mount(), 1);
-        Due.due("4: 257 of their own", Due.withCases(65535, 257).mount(), -14);
-        Due.due("4: 65535 of their own", Due.withCases(65535, 65535).mount(), -14);
-        Due.due("4: something lacks", Due.withCases(0, 65535).mount(), -14);
-        Due.due("4: 256 as great letter", Due.withCases(256).mount(), -14);
-        Due.due("4: 255 as great letter", Due.withCases(255).mount(), 1);
-        Due.due("4: not its own", Due.withCases(1, 2).mount(), -14);
-        Due.due("4: its own later", Due.withCases(1, 1).mount(), 1);
-        int[][] sizes = {{127, -14}, {126, 1}, {128, 1}, {130, -14}, {1, -14}, {2, 1}, {0, -14}, {384, -14}};
-        for (int[] z : sizes) {
-            BitmapVolume y = Due.withCases(new int[64]);
-            long sum = 0;
-            for (int i = 0; i < z[0]; i++) sum = Due.roll32(sum, Due.at(y, 18 * 64 + i));
-            Due.put(y, 20 * 64 + 32 + 24, 4, z[0]);
-            Due.put(y, 20 * 64 + 32 + 4, 4, sum);
-            Due.due("4: a table of " + z[0] + " OCTETS", y.mount(), z[1]);
-        }
-        BitmapVolume x = Due.withCases(65535, 97, 98);
-        x.mount();
-        int a = Due.file(x, 0, "a");
-        Due.due("8: a is LIKE b", Due.look(x, 0, "b"), a);
-        Due.due("8: a is not LIKE A", Due.look(x, 0, "A"), BitmapVolume.NONE);
-        Due.due("the HASH is of b", x.told(a, 5), 49);
     }
 
     private static void setFaults() {
@@ -383,6 +341,9 @@ public final class MountTest {
         BitmapVolume x = Due.base();
         x.spoil(16, 3, 1);
         Due.due("6: behind the BITMAP", x.mount(), 1);
+        x.unmount();
+        x.spoil(16, 2, 1);
+        Due.due("9: it stays", x.mend() * 10 + x.octet(16, 3), 11);
     }
 
     private static void faultStays() {
@@ -456,12 +417,10 @@ public final class MountTest {
     public static void main(String[] args) {
         layout();
         bootRegions();
-        numbersOfBoot();
         wholeRegion();
         mountedBySecond();
         fatFaults();
         baseEntries();
-        tables();
         setFaults();
         numbersOfNames();
         lengths();

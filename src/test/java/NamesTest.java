@@ -59,6 +59,7 @@ public final class NamesTest {
     private static void names() {
         BitmapVolume x = Due.mounted(16);
         for (int v = 1; v < 300; v++) {
+            if (v % 100 == 0) x = Due.mounted(16);
             boolean is = v >= 32 && v <= 126 || v >= 160 && v <= 255;
             if ("\"*/:<>?\\|".indexOf(v) >= 0) is = false;
             x.letters(v);
