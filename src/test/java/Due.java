@@ -129,12 +129,12 @@ final class Due {
         put(x, 8 * 64 + 4 * c, 4, v);
     }
 
-    /** Makes THE SET'S SUM right again: head and tail are its two SECTORS. */
+    /** Makes THE SET'S SUM right again: head is the SECTOR of its FILE and STREAM, at tail begin its NAMES. */
     static void seal(BitmapVolume x, int head, int tail) {
         int s = 0;
         int names = x.octet(head, 1) - 1;
         for (int i = 0; i < 64; i++) if (i != 2 && i != 3) s = roll(s, x.octet(head, i));
-        for (int i = 0; i < 32 * names; i++) s = roll(s, x.octet(tail, i));
+        for (int i = 0; i < 32 * names; i++) s = roll(s, at(x, tail * 64 + i));
         put(x, head * 64 + 2, 2, s);
     }
 

@@ -351,6 +351,13 @@ public final class EdgesOfMountingTest {
         Due.seal(x, 23, 28);
         Edge.due("aa behind a", x.mount(), 1);
         x = Due.base();
+        x.spoil(21, 0, 5);
+        x.spoil(21, 32, 64);
+        x.spoil(22, 0, 65);
+        x.spoil(16, 0, 207);
+        nameLikeA(x);
+        Edge.due("A behind an a that is UNUSED", x.mount(), 1);
+        x = Due.base();
         x.spoil(33, 2, 'd');
         Due.put(x, 32 * 64 + 36, 2, Due.roll(Due.roll(0, 'D'), 0));
         Due.seal(x, 32, 33);
@@ -571,6 +578,12 @@ public final class EdgesOfMountingTest {
     private static void mendRegion() {
         mend("if THE SECOND is used, it is WRITTEN to the first region, first of all");
         Edge.dueOrder("all four SECTORS", EdgesOfMountingTest::lostRegion, x -> x.mend(), "0 1 2 3 16");
+        Edge.dueOrder("ahead of PHASE T", () -> {
+            BitmapVolume y = broken();
+            y.spoil(1, 0, 9);
+            y.spoil(3, 9, 9);
+            return y;
+        }, y -> y.mend(), "0 1 3 8 32 33 35 16");
         BitmapVolume x = lostRegion();
         Edge.due("they do not count", x.mend(), 1);
         Edge.due("PERCENT too", x.octet(0, 49), 255);
@@ -706,6 +719,11 @@ public final class EdgesOfMountingTest {
         mend("PHASES T, E (all ENTRIES that change), B.");
         Edge.dueOrder("one of each", EdgesOfMountingTest::broken, x -> x.mend(), "8 32 33 35 16");
         Edge.dueOrder("none", Due::base, x -> x.mend(), "");
+        Edge.dueOrder("the BITMAP lies behind", () -> {
+            BitmapVolume y = Edge.off(Edge.bitmapLast());
+            breakSum(y, 22);
+            return y;
+        }, y -> y.mend(), "23 28 54");
         mend("then the BITMAP becomes what was met.");
         BitmapVolume x = broken();
         Edge.due("six", x.mend(), 6);

@@ -645,6 +645,27 @@ public final class EdgesOfTermsTest {
         Edge.dueFault("no second NAME", x, 5, 4, 2);
     }
 
+    /** A SET as a longer NAME would have it: three NAMES, its HASH over as many letters as are told. */
+    private static void thirdName() {
+        by("A NAME has 1 to 30 letters (the first 15 in the first NAME, the others in the second; 0s behind them)");
+        for (int letters : new int[] {30, 31, 45}) {
+            BitmapVolume x = Due.mounted(16);
+            Due.file(x, 0, "n".repeat(30));
+            x.unmount();
+            x.spoil(21, 1, 4);
+            x.spoil(21, 35, letters);
+            x.spoil(23, 0, 193);
+            for (int i = 30; i < letters; i++) x.spoil(23, 2 + 2 * (i - 30), 'n');
+            Due.seal(x, 21, 22);
+            Edge.dueFault(letters + " letters in three NAMES, the HASH of thirty", x, 5, 4, 2);
+            int s = 0;
+            for (int i = 0; i < letters; i++) s = Due.roll(Due.roll(s, 'N'), 0);
+            Due.put(x, 21 * 64 + 36, 2, s);
+            Due.seal(x, 21, 22);
+            Edge.dueFault(letters + " letters in three NAMES", x, 5, 4, 2);
+        }
+    }
+
     private static boolean isLetter(int v) {
         if (v == 34 || v == 42 || v == 47 || v == 58 || v == 60 || v == 62 || v == 63 || v == 92 || v == 124) return false;
         return v >= 32 && v <= 126 || v >= 160 && v <= 255;
@@ -789,6 +810,7 @@ public final class EdgesOfTermsTest {
         hashes();
         sizesOfNames();
         secondNames();
+        thirdName();
         letters();
         lastLetters();
         lengths();

@@ -133,6 +133,16 @@ public final class EdgesOfWritingTest {
         return b.toString();
     }
 
+    /** The BITMAP is SECTOR 54: a PHASE ends ahead of the next one, though its SECTORS have higher numbers. */
+    private static void bitmapBehind() {
+        by("What a call changes is WRITTEN in PHASES");
+        Edge.dueOrder("write()", Edge::bitmapLast, x -> x.write(22, 100, 100, 9), "0 16 17 31 8 54 23");
+        Edge.dueOrder("make()", Edge::bitmapLast, x -> Due.file(x, 34, "e"), "0 16 8 54 16 17 29 33");
+        Edge.dueOrder("cut()", Edge::bitmapLast, x -> x.cut(18, 128), "0 21 54");
+        Edge.dueOrder("drop()", Edge::bitmapLast, x -> x.drop(18), "0 21 22 54");
+        Edge.dueOrder("move()", Edge::bitmapLast, x -> Due.move(x, 18, 34, "e"), "0 16 8 54 16 17 29 33 21 22");
+    }
+
     // ---- fail(m)
 
     private static void failing() {
@@ -424,6 +434,7 @@ public final class EdgesOfWritingTest {
         dirty();
         newDirectories();
         table();
+        bitmapBehind();
         failing();
         takesRow();
         goesOn();
