@@ -292,6 +292,12 @@ public final class EdgesOfTermsTest {
             Edge.dueFault("N " + r[0] + ", one more", x, 4, 4, 0);
             x.spoil(20, 24, r[1]);
             Edge.due("N " + r[0], x.mount(), 1);
+            x.unmount();
+            for (int i = r[1]; i < 32; i++) x.spoil(16, i, 255);
+            Edge.due("N " + r[0] + ", what lies behind them is not the BITMAP", x.mount(), 1);
+            x.unmount();
+            x.spoil(16, 1, 1);
+            Edge.due("N " + r[0] + ", nor is it mended", x.mend() * 1000 + x.octet(16, r[1]), 1255);
         }
     }
 
