@@ -7,6 +7,7 @@ import java.nio.charset.StandardCharsets;
 import java.nio.file.Files;
 import java.nio.file.Path;
 import java.util.Arrays;
+import java.util.Set;
 import java.util.TreeSet;
 import java.util.regex.Matcher;
 import java.util.regex.Pattern;
@@ -19,6 +20,7 @@ public final class FaceTest {
         "int look(int)", "int make(int, boolean)", "int mend()", "int mount()", "int move(int, int)", "int octet(int, int)",
         "int spoil(int, int, int)", "int told(int, int)", "int unmount()", "int write(int, int, int, int)", "long read(int, int)",
         "void clock(int)"};
+    private static final Set<String> LIBRARY = Set.of("Arrays.fill", "System.arraycopy", "Math.max", "Math.min", "java.util");
     private static final String[] FIELDS = {"BAD", "BARRED", "FULL", "NAME", "NONE", "OFF", "STATE", "THERE"};
 
     private static String form(Method m) {
@@ -74,6 +76,32 @@ public final class FaceTest {
         for (String n : none) Due.due("[" + n + "] stands in the class", Pattern.compile(n).matcher(s).find() ? 1 : 0, 0);
         Matcher imports = Pattern.compile("import ([^;]+);").matcher(s);
         while (imports.find()) Due.due("import " + imports.group(1), imports.group(1).equals("java.util.Arrays") ? 1 : 0, 1);
+        library(s);
+        lengths(s);
+    }
+
+    /** The class has no texts and makes nothing but its own objects and rows, so little of the library is left. */
+    private static void library(String s) {
+        Matcher calls = Pattern.compile("\\b(java|Math|Arrays|System|Integer|Long|Character|String|StringBuilder)\\.(\\w+)").matcher(s);
+        while (calls.find()) {
+            String name = calls.group();
+            Due.due(name + " may stand in the class", LIBRARY.contains(name) ? 1 : 0, 1);
+        }
+        TreeSet<String> own = new TreeSet<>(Set.of("int[", "boolean[", "BitmapVolume("));
+        for (Class<?> c : BitmapVolume.class.getDeclaredClasses()) own.add(c.getSimpleName() + "(");
+        Matcher made = Pattern.compile("\\bnew (\\w+[(\\[])").matcher(s);
+        while (made.find()) Due.due("new " + made.group(1) + " may stand in the class", own.contains(made.group(1)) ? 1 : 0, 1);
+    }
+
+    private static void lengths(String s) {
+        Matcher methods = Pattern.compile("(?m)^( +)(?:\\w[^;=\\n]*) (\\w+)\\([^;{]*\\) \\{\\n((?:.*\\n)*?)\\1\\}$").matcher(s);
+        int found = 0;
+        while (methods.find()) {
+            found++;
+            int lines = methods.group(3).split("\n").length;
+            Due.due(methods.group(2) + " has at most sixty lines, not " + lines, lines <= 60 ? 1 : 0, 1);
+        }
+        Due.due("methods were found", found > 100 ? 1 : 0, 1);
     }
 
     public static void main(String[] args) throws IOException {
